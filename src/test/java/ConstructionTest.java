@@ -83,8 +83,10 @@ public final class ConstructionTest {
     private static int highOf(int[] row) {
         for (int reports = 1; reports <= 6; reports++) {
             CutDetectMember c = cluster(row);
-            report(c, subjectOfManyObservers(c), reports);
+            int s = subjectOfManyObservers(c);
+            report(c, s, reports);
             if (c.proposalOf(0) != -1) {
+                CHECKS.due("the cut holds the reported alone", c.proposalOf(0), 1 << s);
                 return reports;
             }
         }

@@ -22,7 +22,11 @@ public final class DeliverRoundTest {
         ownVoteIsChosen();
         nothingToChoose();
         accept();
+        prepareOfTheAcceptedRound();
         acceptedRounds();
+        lastProcessCounts();
+        fastShareOfTheLeast();
+        quorumsAreTheCoordinatorsOwn();
         CHECKS.end();
     }
 
@@ -232,25 +236,83 @@ public final class DeliverRoundTest {
     }
 
     private static void ownVoteIsChosen() {
-        CutDetectMember c = new CutDetectMember(5, 2, 1, 1);
-        Drive.castVotes(c, 4, 0);
-        Drive.dropAll(c);
-        prepared(c, 0, 1, 2, 3);
-        promisesTo(c, 0, 1, 2, 3);
-        accepts("no promiser has voted", c, 0, 16, 16);
+        for (int p = 0; p < 5; p++) {
+            CutDetectMember c = new CutDetectMember(5, 2, 1, 1);
+            int[] others = {(p + 1) % 5, (p + 2) % 5, (p + 3) % 5};
+            Drive.castVotes(c, 4, p);
+            Drive.castVotes(c, 3, (p + 4) % 5);
+            Drive.dropAll(c);
+            prepared(c, p, others);
+            promisesTo(c, p, others);
+            accepts("no promiser has voted", c, p, 16 + p, 16);
+        }
     }
 
     private static void nothingToChoose() {
+        for (int p = 0; p < 5; p++) {
+            CutDetectMember c = new CutDetectMember(5, 2, 1, 1);
+            Drive.castVotes(c, 3, (p + 4) % 5);
+            Drive.dropAll(c);
+            int late = (p + 3) % 5;
+            prepared(c, p, p, (p + 1) % 5, (p + 2) % 5, late);
+            promisesTo(c, p, p, (p + 1) % 5, (p + 2) % 5);
+            CHECKS.due("phase(" + p + ")", c.paxos(p, CutDetectMember.P_PHASE), 0);
+            CHECKS.due("crnd(" + p + ")", c.paxos(p, CutDetectMember.P_CRND), 16 + p);
+            CHECKS.due("promises", c.paxos(p, CutDetectMember.P_PCOUNT), 3);
+            CHECKS.due("no accept", Drive.find(c, CutDetectMember.ACCEPT, p), -1);
+            promisesTo(c, p, late);
+            CHECKS.due("a fourth promise comes too late", c.paxos(p, CutDetectMember.P_PCOUNT), 3);
+            CHECKS.due("nothing is in the pool", Drive.usedSlots(c), 0);
+        }
+    }
+
+    private static void fastShareOfTheLeast() {
+        // 0 and 2 have voted alike and 1 otherwise: the two decide, whichever is asked first.
         CutDetectMember c = new CutDetectMember(5, 2, 1, 1);
-        prepared(c, 0, 0, 1, 2, 3);
-        promisesTo(c, 0, 0, 1, 2);
-        CHECKS.due("phase(0)", c.paxos(0, CutDetectMember.P_PHASE), 0);
-        CHECKS.due("crnd(0)", c.paxos(0, CutDetectMember.P_CRND), 16);
-        CHECKS.due("promises", c.paxos(0, CutDetectMember.P_PCOUNT), 3);
-        CHECKS.due("no accept", Drive.find(c, CutDetectMember.ACCEPT, 0), -1);
-        promisesTo(c, 0, 3);
-        CHECKS.due("a fourth promise comes too late", c.paxos(0, CutDetectMember.P_PCOUNT), 3);
-        CHECKS.due("nothing is in the pool", Drive.usedSlots(c), 0);
+        Drive.castVotes(c, 4, 0, 2);
+        Drive.castVotes(c, 3, 1, 3);
+        Drive.dropAll(c);
+        prepared(c, 3, 0, 1, 2);
+        promisesTo(c, 3, 2, 1, 0);
+        accepts("two alike, not next to each other", c, 3, 19, 16);
+        CutDetectMember six = new CutDetectMember(6, 2, 1, 1);
+        Drive.castVotes(six, 4, 1);
+        Drive.castVotes(six, 5, 0, 2, 3);
+        Drive.dropAll(six);
+        prepared(six, 3, 0, 1, 2, 3);
+        promisesTo(six, 3, 1, 2, 3, 0);
+        accepts("three alike of four", six, 3, 19, 32);
+    }
+
+    private static void quorumsAreTheCoordinatorsOwn() {
+        // 4 is removed, but 0 does not know it yet: only the member set of 3 tells how many must be alike.
+        CutDetectMember c = new CutDetectMember(5, 2, 1, 1);
+        Drive.castVotes(c, 4, 0, 1, 2, 3);
+        for (int q = 0; q < 4; q++) {
+            Drive.give(c, CutDetectMember.VOTE, q, 1, 2, 3);
+        }
+        Drive.castVotes(c, 1, 1);
+        Drive.castVotes(c, 2, 2, 3);
+        Drive.dropAll(c);
+        prepared(c, 3, 1, 2, 3);
+        promisesTo(c, 3, 1, 2, 3);
+        int slot = Drive.find(c, CutDetectMember.ACCEPT, 3);
+        CHECKS.message("two alike of three", c, slot, CutDetectMember.ACCEPT, 3, 1, 19, 4, 0, 15);
+    }
+
+    private static void lastProcessCounts() {
+        CutDetectMember c = new CutDetectMember(16, 2, 1, 1);
+        Drive.castVotes(c, 4, from(7, 16));
+        Drive.dropAll(c);
+        prepared(c, 15, from(7, 16));
+        promisesTo(c, 15, from(7, 16));
+        accepts("promises of 7..15", c, 15, 31, 16);
+        Drive.give(c, CutDetectMember.ACCEPT, 15, from(7, 16));
+        for (int q = 15; q >= 7; q--) {
+            CHECKS.due("senders before " + q, c.paxos(3, CutDetectMember.P_LCOUNT), 15 - q);
+            Drive.give(c, CutDetectMember.ACCEPTED, q, 3);
+        }
+        CHECKS.installed("accepted by 7..15", c, 3, 1, 0xFFEF, 16);
     }
 
     private static void accept() {
@@ -274,6 +336,21 @@ public final class DeliverRoundTest {
         Drive.give(c, CutDetectMember.ACCEPT, 0, 2);
         CHECKS.due("a round below the promise", Arrays.equals(before, Checks.processSnapshot(c)), true);
         CHECKS.due("is not answered", Drive.usedSlots(c), used);
+    }
+
+    private static void prepareOfTheAcceptedRound() {
+        CutDetectMember c = new CutDetectMember(5, 2, 1, 1);
+        Drive.castVotes(c, 4, 0, 1);
+        Drive.dropAll(c);
+        Drive.must(c.fallback(0), "fallback(0)");
+        Drive.give(c, CutDetectMember.PREPARE, 0, 0, 1, 2);
+        promisesTo(c, 0, 0, 1, 2);
+        Drive.give(c, CutDetectMember.ACCEPT, 0, 3);
+        int used = Drive.usedSlots(c);
+        int[] before = Checks.processSnapshot(c);
+        Drive.give(c, CutDetectMember.PREPARE, 0, 3);
+        CHECKS.due("a round equal to the promise", Arrays.equals(before, Checks.processSnapshot(c)), true);
+        CHECKS.due("is not promised again", Drive.usedSlots(c), used);
     }
 
     private static void acceptedRounds() {

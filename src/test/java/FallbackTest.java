@@ -10,6 +10,7 @@ public final class FallbackTest {
         collectsAnew();
         refusals();
         leavesTheRestAlone();
+        roundsWrapAround();
         CHECKS.end();
     }
 
@@ -101,5 +102,23 @@ public final class FallbackTest {
         before[45 + 37 + CutDetectMember.P_CRND] = 17;
         before[45 + 37 + CutDetectMember.P_PHASE] = 1;
         CHECKS.due("nothing else changes", Arrays.equals(before, Checks.processSnapshot(c)), true);
+    }
+
+    private static void roundsWrapAround() {
+        CutDetectMember c = new CutDetectMember(3, 2, 2, 1);
+        for (int i = 1; i < 1 << 27; i++) {
+            c.fallback(2);
+            c.drop(0, 0);
+            c.drop(0, 1);
+            c.drop(0, 2);
+        }
+        CHECKS.due("the greatest round of 2", c.paxos(2, CutDetectMember.P_CRND), Integer.MAX_VALUE - 13);
+        Drive.must(c.fallback(2), "fallback(2)");
+        CHECKS.due("past it", c.paxos(2, CutDetectMember.P_CRND), Integer.MIN_VALUE + 2);
+        CHECKS.message("prepare", c, 0, CutDetectMember.PREPARE, 2, 0, Integer.MIN_VALUE + 2, 0, 0, 7);
+        Drive.give(c, CutDetectMember.PREPARE, 2, 0);
+        CHECKS.due("a round below 0 is not promised", c.paxos(0, CutDetectMember.P_PROMISED), 0);
+        Drive.must(c.fallback(2), "fallback(2)");
+        CHECKS.due("promised(2) is the greater now", c.paxos(2, CutDetectMember.P_CRND), 18);
     }
 }
