@@ -284,12 +284,12 @@ public final class CutDetectMember {
         return watched;
     }
 
-    private int fastQuorum(int p) {
-        return (3 * count(members[p]) + 3) / 4;
+    private static int fastQuorum(int size) {
+        return (3 * size + 3) / 4;
     }
 
-    private int classicQuorum(int p) {
-        return count(members[p]) / 2 + 1;
+    private static int classicQuorum(int size) {
+        return size / 2 + 1;
     }
 
     private int lowestFreeSlot() {
@@ -432,7 +432,8 @@ public final class CutDetectMember {
                 same++;
             }
         }
-        if (same >= fastQuorum(p)) {
+        int size = count(members[p]);
+        if (same >= fastQuorum(size)) {
             decide(p, cut);
         }
     }
@@ -451,7 +452,8 @@ public final class CutDetectMember {
         promisers[p] |= 1 << q;
         promiserRound[p * PROCS + q] = itsRound;
         promiserValue[p * PROCS + q] = itsValue;
-        if (count(promisers[p]) != classicQuorum(p)) {
+        int size = count(members[p]);
+        if (count(promisers[p]) != classicQuorum(size)) {
             return;
         }
         int value = choose(p);
@@ -465,11 +467,13 @@ public final class CutDetectMember {
 
     private int choose(int p) {
         int value = newestClassicValue(p);
-        if (value == NONE) {
-            value = possiblyChosenFastValue(p);
+        if (value != NONE) {
+            return value;
         }
+        int voters = fastPromisers(p);
+        value = possiblyChosenFastValue(p, voters);
         if (value == NONE) {
-            value = firstFastValue(p);
+            value = firstFastValue(p, voters);
         }
         return value == NONE ? myVote[p] : value;
     }
@@ -486,40 +490,42 @@ public final class CutDetectMember {
         return value;
     }
 
-    private int possiblyChosenFastValue(int p) {
-        int enough = fastQuorum(p) + classicQuorum(p) - count(members[p]);
+    private int fastPromisers(int p) {
+        int voters = 0;
         for (int q = 0; q < PROCS; q++) {
-            if (promisedAfterFastVote(p, q)) {
-                int value = promiserValue[p * PROCS + q];
-                if (fastPromisersOf(p, value) >= enough) {
-                    return value;
+            if (has(promisers[p], q) && promiserRound[p * PROCS + q] == FAST_ROUND) {
+                voters |= 1 << q;
+            }
+        }
+        return voters;
+    }
+
+    private int possiblyChosenFastValue(int p, int voters) {
+        int size = count(members[p]);
+        // So many of any fast quorum are in every classic quorum: a value with fewer cannot be chosen.
+        int enough = fastQuorum(size) + classicQuorum(size) - size;
+        for (int q = 0; q < PROCS; q++) {
+            int value = promiserValue[p * PROCS + q];
+            int same = 0;
+            for (int other = 0; other < PROCS; other++) {
+                if (has(voters, other) && promiserValue[p * PROCS + other] == value) {
+                    same++;
                 }
+            }
+            if (has(voters, q) && same >= enough) {
+                return value;
             }
         }
         return NONE;
     }
 
-    private int fastPromisersOf(int p, int value) {
-        int same = 0;
+    private int firstFastValue(int p, int voters) {
         for (int q = 0; q < PROCS; q++) {
-            if (promisedAfterFastVote(p, q) && promiserValue[p * PROCS + q] == value) {
-                same++;
-            }
-        }
-        return same;
-    }
-
-    private int firstFastValue(int p) {
-        for (int q = 0; q < PROCS; q++) {
-            if (promisedAfterFastVote(p, q)) {
+            if (has(voters, q)) {
                 return promiserValue[p * PROCS + q];
             }
         }
         return NONE;
-    }
-
-    private boolean promisedAfterFastVote(int p, int q) {
-        return has(promisers[p], q) && promiserRound[p * PROCS + q] == FAST_ROUND;
     }
 
     private void onAccept(int p, int round, int value) {
@@ -541,7 +547,8 @@ public final class CutDetectMember {
             learnedValue[p] = value;
         }
         learnedFrom[p] |= 1 << q;
-        if (count(learnedFrom[p]) >= classicQuorum(p)) {
+        int size = count(members[p]);
+        if (count(learnedFrom[p]) >= classicQuorum(size)) {
             decide(p, learnedValue[p]);
         }
     }

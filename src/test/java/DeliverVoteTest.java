@@ -132,11 +132,7 @@ public final class DeliverVoteTest {
 
     private static void smallClusters() {
         CutDetectMember c = new CutDetectMember(3, 2, 1, 1);
-        Drive.decideFast(c, 0, 2);
-        Drive.give(c, CutDetectMember.VOTE, 0, 1);
-        Drive.give(c, CutDetectMember.VOTE, 1, 1);
-        Drive.give(c, CutDetectMember.VOTE, 2, 1);
-        Drive.dropAll(c);
+        Drive.shrinkToTwo(c);
         Drive.castVotes(c, 1, 0, 1);
         Drive.give(c, CutDetectMember.VOTE, 0, 0);
         CHECKS.due("one vote of two members", c.configOf(0), 1);

@@ -63,18 +63,6 @@ final class Drive {
         }
     }
 
-    /** Delivers all messages, those sent meanwhile too, slot by slot, until none is left. */
-    static void deliverAll(CutDetectMember c) {
-        for (int turn = 0; turn < 1000 && usedSlots(c) > 0; turn++) {
-            for (int slot = 0; slot < CutDetectMember.SLOTS; slot++) {
-                for (int p = 0; p < 16; p++) {
-                    c.deliver(slot, p);
-                }
-            }
-        }
-        must(usedSlots(c) == 0, "emptying the pool");
-    }
-
     /** Sends an alert about s by its observer on ring 0, as process `by` sees the members. */
     static int alert(CutDetectMember c, int by, int s) {
         int o = c.observer(by, s, 0);
@@ -106,6 +94,16 @@ final class Drive {
             }
         }
         must(c.configOf(p) == before + 1, "deciding");
+    }
+
+    /** With n = 3 and H = L = 1: 2 is removed, and 0 and 1 know it; the pool is empty. */
+    static void shrinkToTwo(CutDetectMember c) {
+        castVotes(c, 2, 0, 1, 2);
+        for (int q = 0; q < 3; q++) {
+            give(c, CutDetectMember.VOTE, q, 0, 1);
+        }
+        must(c.configOf(0) == 1 && c.configOf(1) == 1, "removing 2");
+        dropAll(c);
     }
 
     /** All 32 slots taken by messages of p that nobody has received. */

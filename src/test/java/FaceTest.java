@@ -6,7 +6,9 @@ import java.lang.reflect.Modifier;
 import java.nio.file.Files;
 import java.nio.file.Path;
 import java.util.Arrays;
+import java.util.Map;
 import java.util.Set;
+import java.util.TreeMap;
 import java.util.TreeSet;
 import java.util.regex.Matcher;
 import java.util.regex.Pattern;
@@ -103,5 +105,51 @@ public final class FaceTest {
         Matcher made = Pattern.compile("\\bnew\\b").matcher(code);
         Matcher inField = Pattern.compile("(?m)^    private final \\w+\\[\\] \\w+ = new \\w+\\[[A-Z_]+\\];$").matcher(code);
         CHECKS.due("arrays are made in fields alone", made.results().count(), inField.results().count());
+        Map<String, String> bodies = bodies(code);
+        CHECKS.due("all methods are found", bodies.size(), CutDetectMember.class.getDeclaredMethods().length + 1);
+        for (String name : bodies.keySet()) {
+            CHECKS.due("short: " + name, bodies.get(name).lines().count() <= 60, true);
+            CHECKS.due("calls of " + name + " at most six deep", depth(bodies, name, 0) <= 6, true);
+            CHECKS.due("a call inside a call in " + name, nestedCall(bodies, name), false);
+        }
+    }
+
+    /** The bodies of the constructor and of the methods, by name. */
+    private static Map<String, String> bodies(String code) {
+        Map<String, String> bodies = new TreeMap<>();
+        Matcher method = Pattern.compile("(?ms)^    p[^=;\\n]*?(\\w+)\\([^)]*\\) \\{\\n(.*?)^    \\}$").matcher(code);
+        while (method.find()) {
+            bodies.put(method.group(1), method.group(2));
+        }
+        return bodies;
+    }
+
+    private static Matcher calls(Map<String, String> bodies, String text) {
+        return Pattern.compile("\\b(" + String.join("|", bodies.keySet()) + ")\\(").matcher(text);
+    }
+
+    /** How many methods stand on one another when this one is called; far too many if it comes back to itself. */
+    private static int depth(Map<String, String> bodies, String name, int above) {
+        int deepest = 0;
+        Matcher call = calls(bodies, bodies.get(name));
+        while (above < 20 && call.find()) {
+            deepest = Math.max(deepest, depth(bodies, call.group(1), above + 1));
+        }
+        return deepest + 1;
+    }
+
+    private static boolean nestedCall(Map<String, String> bodies, String name) {
+        String body = bodies.get(name);
+        Matcher call = calls(bodies, body);
+        while (call.find()) {
+            int end = call.end();
+            for (int open = 1; open > 0; end++) {
+                open += body.charAt(end) == '(' ? 1 : body.charAt(end) == ')' ? -1 : 0;
+            }
+            if (calls(bodies, body.substring(call.end(), end)).find()) {
+                return true;
+            }
+        }
+        return false;
     }
 }

@@ -94,11 +94,7 @@ public final class ObserverTest {
 
     private static void oneMember() {
         CutDetectMember c = new CutDetectMember(3, 6, 1, 1);
-        Drive.decideFast(c, 0, 2);
-        Drive.give(c, CutDetectMember.VOTE, 0, 1);
-        Drive.give(c, CutDetectMember.VOTE, 1, 1);
-        Drive.give(c, CutDetectMember.VOTE, 2, 1);
-        Drive.dropAll(c);
+        Drive.shrinkToTwo(c);
         Drive.castVotes(c, 1, 0, 1);
         Drive.give(c, CutDetectMember.VOTE, 0, 0);
         Drive.give(c, CutDetectMember.VOTE, 1, 0);
