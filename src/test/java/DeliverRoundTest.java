@@ -285,10 +285,10 @@ public final class DeliverRoundTest {
     }
 
     private static void quorumsAreTheCoordinatorsOwn() {
-        // 4 is removed, but 0 does not know it yet: only the member set of 3 tells how many must be alike.
-        CutDetectMember c = new CutDetectMember(5, 2, 1, 1);
-        Drive.castVotes(c, 4, 0, 1, 2, 3);
-        for (int q = 0; q < 4; q++) {
+        // 5 is removed, but 0 does not know it yet: of five members T is 2, of six it would be 3.
+        CutDetectMember c = new CutDetectMember(6, 2, 1, 1);
+        Drive.castVotes(c, 5, 0, 1, 2, 3, 4);
+        for (int q = 0; q < 5; q++) {
             Drive.give(c, CutDetectMember.VOTE, q, 1, 2, 3);
         }
         Drive.castVotes(c, 1, 1);
@@ -297,7 +297,7 @@ public final class DeliverRoundTest {
         prepared(c, 3, 1, 2, 3);
         promisesTo(c, 3, 1, 2, 3);
         int slot = Drive.find(c, CutDetectMember.ACCEPT, 3);
-        CHECKS.message("two alike of three", c, slot, CutDetectMember.ACCEPT, 3, 1, 19, 4, 0, 15);
+        CHECKS.message("two alike of three", c, slot, CutDetectMember.ACCEPT, 3, 1, 19, 4, 0, 31);
     }
 
     private static void lastProcessCounts() {
