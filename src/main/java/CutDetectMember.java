@@ -456,38 +456,36 @@ public final class CutDetectMember {
         if (count(promisers[p]) != classicQuorum(size)) {
             return;
         }
-        int value = choose(p);
-        if (value == NONE) {
+        int source = chosenPromiser(p);
+        if (source == NONE && myVote[p] == NONE) {
             phase[p] = IDLE;
             return;
         }
+        int value = source == NONE ? myVote[p] : promiserValue[p * PROCS + source];
         phase[p] = ACCEPT_SENT;
         send(p, ACCEPT, ownRound[p], value, 0, members[p]);
     }
 
-    private int choose(int p) {
-        int value = newestClassicValue(p);
-        if (value != NONE) {
-            return value;
+    private int chosenPromiser(int p) {
+        int source = newestClassicPromiser(p);
+        if (source != NONE) {
+            return source;
         }
         int voters = fastPromisers(p);
-        value = possiblyChosenFastValue(p, voters);
-        if (value == NONE) {
-            value = firstFastValue(p, voters);
-        }
-        return value == NONE ? myVote[p] : value;
+        source = possiblyDecisiveVoter(p, voters);
+        return source == NONE ? leastOf(voters) : source;
     }
 
-    private int newestClassicValue(int p) {
-        int value = NONE;
+    private int newestClassicPromiser(int p) {
+        int source = NONE;
         int newest = FIRST_CLASSIC_ROUND - 1;
         for (int q = 0; q < PROCS; q++) {
             if (has(promisers[p], q) && promiserRound[p * PROCS + q] > newest) {
                 newest = promiserRound[p * PROCS + q];
-                value = promiserValue[p * PROCS + q];
+                source = q;
             }
         }
-        return value;
+        return source;
     }
 
     private int fastPromisers(int p) {
@@ -500,29 +498,28 @@ public final class CutDetectMember {
         return voters;
     }
 
-    private int possiblyChosenFastValue(int p, int voters) {
+    private int possiblyDecisiveVoter(int p, int voters) {
         int size = count(members[p]);
         // So many of any fast quorum are in every classic quorum: a value with fewer cannot be chosen.
         int enough = fastQuorum(size) + classicQuorum(size) - size;
         for (int q = 0; q < PROCS; q++) {
-            int value = promiserValue[p * PROCS + q];
             int same = 0;
             for (int other = 0; other < PROCS; other++) {
-                if (has(voters, other) && promiserValue[p * PROCS + other] == value) {
+                if (has(voters, other) && promiserValue[p * PROCS + other] == promiserValue[p * PROCS + q]) {
                     same++;
                 }
             }
             if (has(voters, q) && same >= enough) {
-                return value;
+                return q;
             }
         }
         return NONE;
     }
 
-    private int firstFastValue(int p, int voters) {
+    private static int leastOf(int set) {
         for (int q = 0; q < PROCS; q++) {
-            if (has(voters, q)) {
-                return promiserValue[p * PROCS + q];
+            if (has(set, q)) {
+                return q;
             }
         }
         return NONE;

@@ -5,6 +5,12 @@ import java.util.function.BooleanSupplier;
 final class Checks {
     /** Process ids that are wrong, with the edges of int among them. */
     static final int[] WRONG_IDS = {-1, 16, 17, -16, 32, Integer.MIN_VALUE, Integer.MAX_VALUE};
+    /** Numbers of slots that are wrong. */
+    static final int[] WRONG_SLOTS = {-1, 32, 33, -32, 64, Integer.MIN_VALUE, Integer.MAX_VALUE};
+    /** Answers of one process in a snapshot, the first being its status. */
+    static final int CELLS = 45;
+    /** Where the answers of paxos begin among them. */
+    static final int ROUND_CELLS = 37;
 
     private int made = 0;
     private int wrong = 0;
@@ -21,11 +27,70 @@ final class Checks {
         due(what, got ? 1 : 0, want ? 1 : 0);
     }
 
+    void same(String what, int[] got, int[] want) {
+        int at = Arrays.mismatch(got, want);
+        due(at == -1 ? what : what + ", cell " + at, at == -1, true);
+    }
+
     /** The call must answer false and leave everything that can be read as it was. */
     void refused(String what, CutDetectMember c, BooleanSupplier call) {
         int[] before = snapshot(c);
         due(what, call.getAsBoolean(), false);
-        due(what + " changes nothing", Arrays.equals(before, snapshot(c)), true);
+        same(what + " changes nothing", snapshot(c), before);
+    }
+
+    /** The call must answer true and leave all processes as they were. */
+    void leavesProcesses(String what, CutDetectMember c, BooleanSupplier call) {
+        int[] before = processSnapshot(c);
+        due(what, call.getAsBoolean(), true);
+        same(what + " changes no process", processSnapshot(c), before);
+    }
+
+    /** deliver(slot, p) must take p off the slot and change nothing else. */
+    void withoutEffect(String what, CutDetectMember c, int slot, int p) {
+        int[] processes = processSnapshot(c);
+        int[] slots = slotsWithout(c, slot, p);
+        due(what + ", deliver(" + slot + ", " + p + ")", c.deliver(slot, p), true);
+        same(what + " changes no process", processSnapshot(c), processes);
+        same(what + " changes no slot but for the receiver", slotSnapshot(c), slots);
+    }
+
+    /** deliver(slot, p) must take p off the slot and change p, but no other process and no other slot. */
+    void unanswered(String what, CutDetectMember c, int slot, int p) {
+        int[] slots = slotsWithout(c, slot, p);
+        changesOnly(what, c, slot, p);
+        same(what + " changes no slot but for the receiver", slotSnapshot(c), slots);
+    }
+
+    /** deliver(slot, p) must take p off the slot and bring just this message, in the lowest slot then free. */
+    void answered(String what, CutDetectMember c, int slot, int p, int... fields) {
+        int[] slots = slotsWithout(c, slot, p);
+        int free = 0;
+        while (slots[free * 7 + CutDetectMember.F_DEST] != 0) {
+            free++;
+        }
+        System.arraycopy(fields, 0, slots, free * 7, 7);
+        changesOnly(what, c, slot, p);
+        message(what, c, free, fields);
+        same(what + " changes no slot but two", slotSnapshot(c), slots);
+    }
+
+    private void changesOnly(String what, CutDetectMember c, int slot, int p) {
+        int[] processes = processSnapshot(c);
+        due(what + ", deliver(" + slot + ", " + p + ")", c.deliver(slot, p), true);
+        System.arraycopy(snapshotOf(c, p), 0, processes, p * CELLS, CELLS);
+        same(what + " changes no process but " + p, processSnapshot(c), processes);
+    }
+
+    /** The slots as they are to be when p alone has been taken off one of them. */
+    static int[] slotsWithout(CutDetectMember c, int slot, int p) {
+        int[] slots = slotSnapshot(c);
+        int dest = slots[slot * 7 + CutDetectMember.F_DEST] & ~(1 << p);
+        slots[slot * 7 + CutDetectMember.F_DEST] = dest;
+        if (dest == 0) {
+            Arrays.fill(slots, slot * 7, slot * 7 + 7, 0);
+        }
+        return slots;
     }
 
     /** The slot holds just this message. */
@@ -39,6 +104,13 @@ final class Checks {
         message(what, c, slot, 0, 0, 0, 0, 0, 0, 0);
     }
 
+    /** The answers of paxos(p, 0) to paxos(p, 7). */
+    void rounds(String what, CutDetectMember c, int p, int... due) {
+        for (int f = 0; f < 8; f++) {
+            due(what + ", paxos(" + p + ", " + f + ")", c.paxos(p, f), due[f]);
+        }
+    }
+
     /** The per-configuration state of p is as after INSTALL. */
     void fresh(String what, CutDetectMember c, int p) {
         for (int q = 0; q < 16; q++) {
@@ -46,9 +118,7 @@ final class Checks {
             due(what + ", voteOf(" + p + ", " + q + ")", c.voteOf(p, q), -1);
         }
         due(what + ", proposalOf(" + p + ")", c.proposalOf(p), -1);
-        for (int f = 0; f < 8; f++) {
-            due(what + ", paxos(" + p + ", " + f + ")", c.paxos(p, f), f == CutDetectMember.P_ACCRND ? -1 : 0);
-        }
+        rounds(what, c, p, 0, -1, 0, 0, 0, 0, 0, 0);
     }
 
     void installed(String what, CutDetectMember c, int p, int config, int members, int cut) {
@@ -67,7 +137,7 @@ final class Checks {
 
     /** What p alone can be asked for. */
     static int[] snapshotOf(CutDetectMember c, int p) {
-        int[] cells = new int[45];
+        int[] cells = new int[CELLS];
         int at = 0;
         cells[at++] = c.status(p);
         cells[at++] = c.configOf(p);
@@ -93,9 +163,9 @@ final class Checks {
     }
 
     static int[] processSnapshot(CutDetectMember c) {
-        int[] cells = new int[16 * 45];
+        int[] cells = new int[16 * CELLS];
         for (int p = 0; p < 16; p++) {
-            System.arraycopy(snapshotOf(c, p), 0, cells, p * 45, 45);
+            System.arraycopy(snapshotOf(c, p), 0, cells, p * CELLS, CELLS);
         }
         return cells;
     }

@@ -1,290 +1,225 @@
 import java.util.Arrays;
 
-/** Promise 5: deliver, its refusals, the slot it frees, and the rules before those by kind. */
+/** Promise 5: deliver, its refusals, the slot it frees, and the answers that find a slot or none. */
 public final class DeliverTest {
     private static final Checks CHECKS = new Checks();
 
+    /** What a rule sends: the kind of the answer, and the message that brings it. */
+    private enum Answer { VOTE, PROMISE, ACCEPT, ACCEPTED, WELCOME_OF_VOTES, WELCOME_OF_ACCEPTED, WELCOME_OF_OLD }
+
     public static void main(String[] args) {
-        refusals();
+        wrongSlots();
+        wrongIds();
+        noReceiver();
+        receivedAlready();
+        freeSlots();
         takesOffOneReceiver();
-        freedSlotTakesTheAnswer();
-        answersAreLostWhenThePoolIsFull();
-        crashedReceivesNothing();
-        welcomeBringsForward();
-        welcomeIsIgnoredUnlessNewer();
-        outsiderHearsOnlyWelcomes();
-        oldMessageIsAnsweredWithWelcome();
-        ownOldMessageIsNotAnswered();
-        newerMessageIsIgnored();
-        onlyTheReceiverChanges();
+        lastReceiverFreesTheSlot();
+        lowestFreeSlotTakesTheAnswer();
+        for (Answer answer : Answer.values()) {
+            freedSlotTakesTheAnswer(answer);
+            answerIsLost(answer);
+        }
         CHECKS.end();
     }
 
-    private static void refusals() {
-        CutDetectMember c = new CutDetectMember(5, 2, 2, 1);
-        for (int slot = 0; slot < CutDetectMember.SLOTS; slot++) {
-            int free = slot;
-            CHECKS.refused("deliver(" + slot + ", 0) of a free slot", c, () -> c.deliver(free, 0));
+    /** "slot is not in 0..SLOTS-1" */
+    private static void wrongSlots() {
+        CutDetectMember c = new CutDetectMember(16, 2, 2, 1);
+        Drive.fillPool(c, 0);
+        for (int wrong : Checks.WRONG_SLOTS) {
+            for (int p = 0; p < 16; p++) {
+                int receiver = p;
+                CHECKS.refused("deliver(" + wrong + ", " + p + ")", c, () -> c.deliver(wrong, receiver));
+            }
         }
-        Drive.must(c.observe(0, 4), "observe(0, 4)");
-        for (int wrong : new int[] {-1, 32, 33, -32, Integer.MIN_VALUE, Integer.MAX_VALUE}) {
-            CHECKS.refused("deliver(" + wrong + ", 0)", c, () -> c.deliver(wrong, 0));
-        }
+    }
+
+    /** "p is not in 0..15" */
+    private static void wrongIds() {
+        CutDetectMember c = new CutDetectMember(16, 2, 2, 1);
+        Drive.fillPool(c, 0);
         for (int wrong : Checks.WRONG_IDS) {
-            CHECKS.refused("deliver(0, " + wrong + ")", c, () -> c.deliver(0, wrong));
+            for (int slot = 0; slot < CutDetectMember.SLOTS; slot++) {
+                int from = slot;
+                CHECKS.refused("deliver(" + slot + ", " + wrong + ")", c, () -> c.deliver(from, wrong));
+            }
         }
+    }
+
+    /** "p is not in the dest of the slot." */
+    private static void noReceiver() {
+        CutDetectMember c = new CutDetectMember(5, 2, 2, 1);
+        Drive.must(c.observe(0, 4), "observe(0, 4)");
         for (int p = 5; p < 16; p++) {
             int outsider = p;
             CHECKS.refused("deliver(0, " + p + ") to no receiver", c, () -> c.deliver(0, outsider));
         }
-        CHECKS.due("deliver(0, 2)", c.deliver(0, 2), true);
-        CHECKS.refused("deliver(0, 2) again", c, () -> c.deliver(0, 2));
-        CHECKS.due("reportCount(2, 4)", c.reportCount(2, 4), 1);
+        Drive.must(c.fallback(3) && c.deliver(1, 2), "a promise");
+        CHECKS.message("a promise to 3 alone", c, 2, CutDetectMember.PROMISE, 2, 0, 19, -1, 0, 8);
+        for (int p : new int[] {0, 1, 2, 4}) {
+            CHECKS.refused("deliver(2, " + p + ") of a promise to 3", c, () -> c.deliver(2, p));
+        }
     }
 
-    private static void takesOffOneReceiver() {
+    /** "p is not in the dest of the slot.": it was, but has received the message or lost it. */
+    private static void receivedAlready() {
         CutDetectMember c = new CutDetectMember(5, 2, 2, 1);
-        Drive.must(c.observe(1, 4), "observe(1, 4)");
         Drive.must(c.observe(0, 4), "observe(0, 4)");
-        int dest = 31;
-        for (int p : new int[] {3, 0, 4, 1}) {
-            CHECKS.due("deliver(0, " + p + ")", c.deliver(0, p), true);
-            dest -= 1 << p;
-            CHECKS.message("after " + p, c, 0, CutDetectMember.ALERT, 1, 0, 4, 2, 0, dest);
+        CHECKS.due("deliver(0, 2)", c.deliver(0, 2), true);
+        CHECKS.refused("deliver(0, 2) again", c, () -> c.deliver(0, 2));
+        CHECKS.due("drop(0, 3)", c.drop(0, 3), true);
+        CHECKS.refused("deliver(0, 3) after the drop", c, () -> c.deliver(0, 3));
+        CHECKS.due("reportCount(2, 4)", c.reportCount(2, 4), 1);
+        CHECKS.due("reportCount(3, 4)", c.reportCount(3, 4), 0);
+    }
+
+    /** "A free slot has dest 0, so delivering from it is always refused." */
+    private static void freeSlots() {
+        CutDetectMember c = new CutDetectMember(5, 2, 2, 1);
+        Drive.fillPool(c, 0);
+        Drive.dropAll(c);
+        for (int slot = 0; slot < CutDetectMember.SLOTS; slot++) {
+            for (int p = 0; p < 16; p++) {
+                int free = slot;
+                int receiver = p;
+                CHECKS.refused("deliver(" + slot + ", " + p + ") of a free slot", c, () -> c.deliver(free, receiver));
+            }
         }
-        CHECKS.due("deliver(0, 2), the last", c.deliver(0, 2), true);
+    }
+
+    /** "p is removed from dest." */
+    private static void takesOffOneReceiver() {
+        CutDetectMember c = new CutDetectMember(16, 2, 2, 1);
+        Drive.must(c.fallback(0) && c.observe(c.observer(0, 9, 1), 9), "two messages");
+        int observer = c.observer(0, 9, 1);
+        int dest = 0xFFFF;
+        for (int p : new int[] {15, 0, 7, 8, 1, 14, 2, 13}) {
+            dest -= 1 << p;
+            CHECKS.unanswered("receiver " + p, c, 1, p);
+            CHECKS.message("after " + p, c, 1, CutDetectMember.ALERT, observer, 0, 9, 2, 0, dest);
+        }
+    }
+
+    /** "If dest became 0 the slot is free", "all fields of a free slot read 0." */
+    private static void lastReceiverFreesTheSlot() {
+        CutDetectMember c = new CutDetectMember(5, 2, 2, 1);
+        Drive.must(c.observe(1, 4) && c.observe(0, 4), "observe");
+        for (int p : new int[] {3, 0, 4, 1}) {
+            Drive.must(c.deliver(0, p), "deliver");
+        }
+        CHECKS.message("before the last", c, 0, CutDetectMember.ALERT, 1, 0, 4, 2, 0, 4);
+        CHECKS.unanswered("the last receiver", c, 0, 2);
         CHECKS.freeSlot("after the last", c, 0);
         CHECKS.message("the other slot stays", c, 1, CutDetectMember.ALERT, 0, 0, 4, 1, 0, 31);
     }
 
-    private static void freedSlotTakesTheAnswer() {
-        CutDetectMember c = new CutDetectMember(3, 2, 1, 1);
+    /** "Otherwise the lowest free slot gets kind, src = p, cfg = cfg(p), x, y, z and dest = D." */
+    private static void lowestFreeSlotTakesTheAnswer() {
+        CutDetectMember c = new CutDetectMember(5, 2, 1, 1);
         Drive.must(c.fallback(1), "fallback(1)");
-        Drive.must(c.fallback(2), "fallback(2)");
-        Drive.must(c.drop(0, 0) && c.drop(0, 1), "drop");
-        CHECKS.due("deliver(0, 2), the last receiver", c.deliver(0, 2), true);
-        CHECKS.message("the promise in the freed slot", c, 0, CutDetectMember.PROMISE, 2, 0, 17, -1, 0, 2);
-        CHECKS.message("the other slot stays", c, 1, CutDetectMember.PREPARE, 2, 0, 18, 0, 0, 7);
-        CHECKS.due("deliver(1, 0), not the last receiver", c.deliver(1, 0), true);
-        CHECKS.message("the promise in the lowest free slot", c, 2, CutDetectMember.PROMISE, 0, 0, 18, -1, 0, 4);
-    }
-
-    private static void answersAreLostWhenThePoolIsFull() {
-        CutDetectMember c = new CutDetectMember(3, 2, 1, 1);
-        Drive.must(c.observe(c.observer(0, 2, 0), 2), "observe");
         Drive.fillPool(c, 0);
-        int[] slots = Checks.slotSnapshot(c);
-        CHECKS.due("deliver the alert to 1", c.deliver(0, 1), true);
-        CHECKS.due("1 has voted", c.proposalOf(1), 4);
-        CHECKS.due("1 accepts its vote", c.paxos(1, CutDetectMember.P_ACCRND), 0);
-        CHECKS.due("1 accepts its vote", c.paxos(1, CutDetectMember.P_ACCVAL), 4);
-        slots[CutDetectMember.F_DEST] = 5;
-        CHECKS.due("the vote is lost", Arrays.equals(slots, Checks.slotSnapshot(c)), true);
-        CHECKS.due("deliver a prepare to 2", c.deliver(1, 2), true);
-        CHECKS.due("2 has promised", c.paxos(2, CutDetectMember.P_PROMISED), 16);
-        slots[7 + CutDetectMember.F_DEST] = 3;
-        CHECKS.due("the promise is lost", Arrays.equals(slots, Checks.slotSnapshot(c)), true);
-        acceptIsLost();
-        welcomeIsLost();
+        Drive.dropSlot(c, 21);
+        Drive.dropSlot(c, 9);
+        CHECKS.due("deliver(0, 2)", c.deliver(0, 2), true);
+        CHECKS.message("the lower of two", c, 9, CutDetectMember.PROMISE, 2, 0, 17, -1, 0, 2);
+        CHECKS.freeSlot("the higher of two", c, 21);
+        Drive.dropForOthers(c, 30, 3);
+        CHECKS.due("deliver(30, 3), the last receiver of a higher slot", c.deliver(30, 3), true);
+        CHECKS.message("a lower slot was free", c, 21, CutDetectMember.VOTE, 3, 0, c.proposalOf(3), 0, 0, 31);
+        CHECKS.freeSlot("the slot of the message", c, 30);
     }
 
-    private static void acceptIsLost() {
-        CutDetectMember c = new CutDetectMember(3, 2, 1, 1);
-        Drive.castVotes(c, 2, 0, 1);
-        Drive.dropAll(c);
-        Drive.must(c.fallback(0), "fallback(0)");
-        Drive.give(c, CutDetectMember.PREPARE, 0, 0, 1);
-        Drive.give(c, CutDetectMember.PROMISE, 0, 0);
-        Drive.give(c, CutDetectMember.PROMISE, 1, 0);
-        Drive.fillPool(c, 1);
-        int accept = Drive.find(c, CutDetectMember.ACCEPT, 0);
-        CHECKS.due("deliver the accept to 2", c.deliver(accept, 2), true);
-        CHECKS.due("2 has accepted", c.paxos(2, CutDetectMember.P_ACCRND), 16);
-        CHECKS.due("2 has accepted", c.paxos(2, CutDetectMember.P_ACCVAL), 4);
-        CHECKS.due("its accepted is lost", Drive.find(c, CutDetectMember.ACCEPTED, 2), -1);
+    /** "If dest became 0 the slot is free and may take messages sent during the rest of this call." */
+    private static void freedSlotTakesTheAnswer(Answer answer) {
+        CutDetectMember c = pending(answer);
+        CutDetectMember twin = pending(answer);
+        int slot = slotOf(answer, c);
+        Drive.dropForOthers(c, slot, 1);
+        Drive.fillPool(c, 4);
+        CHECKS.answered(answer + " in the freed slot", c, slot, 1, due(answer));
+        CHECKS.message(answer + " in the freed slot", c, slot, due(answer));
+        Drive.must(twin.deliver(slot, 1), "deliver with free slots");
+        CHECKS.same(answer + ", state", Checks.processSnapshot(c), Checks.processSnapshot(twin));
     }
 
-    private static void welcomeIsLost() {
-        CutDetectMember c = new CutDetectMember(5, 2, 1, 1);
-        int o = Drive.alert(c, 0, 4);
-        Drive.give(c, CutDetectMember.ALERT, o, 0, 1, 2, 3);
-        for (int q = 0; q < 3; q++) {
-            Drive.give(c, CutDetectMember.VOTE, q, 1);
+    /**
+     * "Any SEND or BROADCAST made by a rule is lost if no slot is free; the state changes of that rule
+     * still happen." A promise has one receiver and so frees its slot: no accept is lost.
+     */
+    private static void answerIsLost(Answer answer) {
+        if (answer == Answer.ACCEPT) {
+            return;
         }
-        Drive.fillPool(c, 0);
-        Drive.give(c, CutDetectMember.VOTE, 3, 1);
-        CHECKS.installed("decided with a full pool", c, 1, 1, 15, 16);
-        CHECKS.due("the welcome is lost", Drive.find(c, CutDetectMember.WELCOME, 1), -1);
-        Drive.give(c, CutDetectMember.PREPARE, 0, 1);
-        CHECKS.due("the welcome to one behind is lost", Drive.find(c, CutDetectMember.WELCOME, 1), -1);
+        CutDetectMember c = pending(answer);
+        CutDetectMember twin = pending(answer);
+        int slot = slotOf(answer, c);
+        CHECKS.due(answer + ", others wait too", Integer.bitCount(c.msg(slot, CutDetectMember.F_DEST)) > 1, true);
+        Drive.fillPool(c, 4);
+        int[] before = Checks.snapshotOf(c, 1);
+        CHECKS.unanswered(answer + " is lost", c, slot, 1);
+        CHECKS.answered(answer + " with free slots", twin, slot, 1, due(answer));
+        CHECKS.same(answer + ", state", Checks.processSnapshot(c), Checks.processSnapshot(twin));
+        boolean changed = !Arrays.equals(before, Checks.snapshotOf(c, 1));
+        CHECKS.due(answer + ", its rule changes 1", changed, answer != Answer.WELCOME_OF_OLD);
     }
 
-    private static void crashedReceivesNothing() {
+    /** A cluster of five in which process 1 answers so when it receives the message of slotOf. */
+    private static CutDetectMember pending(Answer answer) {
         CutDetectMember c = new CutDetectMember(5, 2, 1, 1);
-        Drive.decideFast(c, 3, 4);
-        Drive.must(c.fallback(0), "fallback(0)");
-        Drive.must(c.crash(3), "crash(3)");
-        Drive.must(c.crash(4), "crash(4)");
-        int[] before = Checks.processSnapshot(c);
-        int used = Drive.usedSlots(c);
-        Drive.give(c, CutDetectMember.PREPARE, 0, 3, 4);
-        CHECKS.due("no answer by the crashed", Drive.usedSlots(c), used);
-        Drive.give(c, CutDetectMember.WELCOME, 3, 4);
-        CHECKS.due("the welcome is used up", Drive.usedSlots(c), used - 1);
-        CHECKS.due("no process changed", Arrays.equals(before, Checks.processSnapshot(c)), true);
-    }
-
-    private static void welcomeBringsForward() {
-        CutDetectMember c = new CutDetectMember(5, 2, 1, 1);
-        Drive.decideFast(c, 0, 7);
-        int welcome = Drive.find(c, CutDetectMember.WELCOME, 0);
-        CHECKS.message("welcome to the joiner", c, welcome, CutDetectMember.WELCOME, 0, 1, 159, 128, 0, 128);
-        CHECKS.due("7 is out", c.status(7), CutDetectMember.ST_OUT);
-        CHECKS.due("deliver the welcome", c.deliver(welcome, 7), true);
-        CHECKS.installed("welcomed", c, 7, 1, 159, 128);
-        CHECKS.due("7 is a member", c.status(7), CutDetectMember.ST_MEMBER);
-        CHECKS.freeSlot("no answer", c, welcome);
-
-        // The removed one may be deep in a round of the old configuration: all of it is put back.
-        CutDetectMember r = new CutDetectMember(5, 2, 1, 1);
-        Drive.must(r.fallback(4), "fallback(4)");
-        Drive.decideFast(r, 0, 4);
-        Drive.give(r, CutDetectMember.PREPARE, 4, 4, 1);
-        Drive.give(r, CutDetectMember.PROMISE, 4, 4);
-        Drive.give(r, CutDetectMember.VOTE, 1, 4);
-        CHECKS.due("4 has voted", r.proposalOf(4), 16);
-        CHECKS.due("4 has a promise", r.paxos(4, CutDetectMember.P_PCOUNT), 1);
-        Drive.give(r, CutDetectMember.WELCOME, 0, 4);
-        CHECKS.installed("told of its removal", r, 4, 1, 15, 16);
-        CHECKS.due("4 is out", r.status(4), CutDetectMember.ST_OUT);
-    }
-
-    private static void welcomeIsIgnoredUnlessNewer() {
-        CutDetectMember c = new CutDetectMember(5, 2, 1, 1);
-        int o = Drive.alert(c, 0, 7);
-        Drive.give(c, CutDetectMember.ALERT, o, 0, 1, 2, 3);
-        for (int q = 0; q < 4; q++) {
-            Drive.give(c, CutDetectMember.VOTE, q, 0, 1);
-        }
-        Drive.give(c, CutDetectMember.WELCOME, 0, 7);
-        Drive.must(c.fallback(7), "fallback(7)");
-        int[] before = Checks.processSnapshot(c);
-        Drive.give(c, CutDetectMember.WELCOME, 1, 7);
-        CHECKS.due("a welcome to its own configuration", Arrays.equals(before, Checks.processSnapshot(c)), true);
-
-        // 3 stays behind: 0 welcomes it to configuration 1, then to 2. The older arrives last.
-        CutDetectMember b = new CutDetectMember(5, 2, 1, 1);
-        Drive.castVotes(b, 4, 0, 1, 2, 3);
-        for (int q = 0; q < 4; q++) {
-            Drive.give(b, CutDetectMember.VOTE, q, 0, 1, 2);
-        }
-        Drive.dropAll(b);
-        Drive.must(b.fallback(3), "fallback(3)");
-        Drive.must(b.fallback(3), "fallback(3)");
-        Drive.must(b.deliver(0, 0), "deliver the first prepare");
-        CHECKS.message("welcome to 1", b, 2, CutDetectMember.WELCOME, 0, 1, 15, 16, 0, 8);
-        Drive.castVotes(b, 5, 0, 1, 2);
-        for (int q = 0; q < 3; q++) {
-            Drive.give(b, CutDetectMember.VOTE, q, 0);
-        }
-        CHECKS.installed("second configuration", b, 0, 2, 47, 32);
-        Drive.dropKind(b, CutDetectMember.VOTE);
-        Drive.must(b.drop(welcomeTo(b, 5), 5), "drop the welcome of 5");
-        Drive.must(b.deliver(1, 0), "deliver the second prepare");
-        CHECKS.message("welcome to 2", b, 3, CutDetectMember.WELCOME, 0, 2, 47, 32, 0, 8);
-        CHECKS.due("deliver the newer", b.deliver(3, 3), true);
-        CHECKS.installed("3 skips a configuration", b, 3, 2, 47, 32);
-        Drive.must(b.fallback(3), "fallback(3)");
-        int[] then = Checks.processSnapshot(b);
-        CHECKS.due("deliver the older", b.deliver(2, 3), true);
-        CHECKS.due("an older welcome changes nothing", Arrays.equals(then, Checks.processSnapshot(b)), true);
-    }
-
-    private static int welcomeTo(CutDetectMember c, int p) {
-        for (int slot = 0; slot < CutDetectMember.SLOTS; slot++) {
-            boolean welcome = c.msg(slot, CutDetectMember.F_KIND) == CutDetectMember.WELCOME;
-            if (welcome && c.msg(slot, CutDetectMember.F_DEST) == 1 << p) {
-                return slot;
+        switch (answer) {
+            case VOTE -> Drive.must(c.observe(0, 4), "observe(0, 4)");
+            case PROMISE -> Drive.must(c.fallback(0), "fallback(0)");
+            case ACCEPT -> {
+                Drive.castVotes(c, 4, 2);
+                Drive.prepared(c, 1, 0, 2, 3);
+                Drive.promisesTo(c, 1, 0, 2);
+            }
+            case ACCEPTED -> {
+                Drive.castVotes(c, 4, 0);
+                Drive.acceptSent(c, 0, 0, 2, 3);
+            }
+            case WELCOME_OF_VOTES -> {
+                Drive.castVotes(c, 4, 0, 1, 2, 3);
+                for (int q = 1; q < 4; q++) {
+                    Drive.give(c, CutDetectMember.VOTE, q, 1);
+                }
+            }
+            case WELCOME_OF_ACCEPTED -> {
+                Drive.castVotes(c, 4, 0);
+                Drive.acceptSent(c, 0, 0, 2, 3);
+                Drive.give(c, CutDetectMember.ACCEPT, 0, 0, 2, 3);
+                Drive.give(c, CutDetectMember.ACCEPTED, 2, 1);
+                Drive.give(c, CutDetectMember.ACCEPTED, 3, 1);
+            }
+            default -> {
+                Drive.must(c.fallback(0), "fallback(0)");
+                Drive.decideFast(c, 1, 4);
+                Drive.dropKind(c, CutDetectMember.WELCOME);
             }
         }
-        return -1;
+        return c;
     }
 
-    private static void outsiderHearsOnlyWelcomes() {
-        // 4 takes part in its own removal and is out at once; every other kind passes it by then.
-        CutDetectMember c = new CutDetectMember(5, 2, 1, 1);
-        int o = Drive.alert(c, 0, 4);
-        Drive.give(c, CutDetectMember.ALERT, o, 0, 1, 2, 3);
-        Drive.must(c.fallback(0), "fallback(0)");
-        for (int q = 0; q < 4; q++) {
-            Drive.give(c, CutDetectMember.VOTE, q, 4);
-        }
-        CHECKS.installed("4 has decided its removal", c, 4, 1, 15, 16);
-        CHECKS.due("4 is out", c.status(4), CutDetectMember.ST_OUT);
-        CHECKS.due("4 does not welcome itself", Drive.find(c, CutDetectMember.WELCOME, 4), -1);
-        int[] before = Checks.processSnapshot(c);
-        int used = Drive.usedSlots(c);
-        Drive.give(c, CutDetectMember.PREPARE, 0, 4);
-        Drive.give(c, CutDetectMember.ALERT, o, 4);
-        CHECKS.due("an outsider does not answer old messages", Drive.usedSlots(c), used - 1);
-        CHECKS.due("no process changed", Arrays.equals(before, Checks.processSnapshot(c)), true);
+    private static int slotOf(Answer answer, CutDetectMember c) {
+        return switch (answer) {
+            case VOTE -> Drive.find(c, CutDetectMember.ALERT, 0);
+            case PROMISE, WELCOME_OF_OLD -> Drive.find(c, CutDetectMember.PREPARE, 0);
+            case ACCEPT -> Drive.find(c, CutDetectMember.PROMISE, 3);
+            case ACCEPTED -> Drive.find(c, CutDetectMember.ACCEPT, 0);
+            case WELCOME_OF_VOTES -> Drive.find(c, CutDetectMember.VOTE, 0);
+            case WELCOME_OF_ACCEPTED -> Drive.find(c, CutDetectMember.ACCEPTED, 0);
+        };
     }
 
-    private static void oldMessageIsAnsweredWithWelcome() {
-        CutDetectMember c = new CutDetectMember(5, 2, 1, 1);
-        Drive.must(c.fallback(2), "fallback(2)");
-        Drive.decideFast(c, 0, 4);
-        Drive.dropKind(c, CutDetectMember.WELCOME);
-        Drive.dropKind(c, CutDetectMember.ALERT);
-        int[] before = Checks.processSnapshot(c);
-        Drive.give(c, CutDetectMember.PREPARE, 2, 0);
-        int welcome = Drive.find(c, CutDetectMember.WELCOME, 0);
-        CHECKS.message("welcome to the one behind", c, welcome, CutDetectMember.WELCOME, 0, 1, 15, 16, 0, 4);
-        CHECKS.due("0 itself stays as it was", Arrays.equals(before, Checks.processSnapshot(c)), true);
-        Drive.give(c, CutDetectMember.VOTE, 4, 0);
-        int second = welcomeTo(c, 4);
-        CHECKS.message("welcome to one that is out", c, second, CutDetectMember.WELCOME, 0, 1, 15, 16, 0, 16);
-    }
-
-    private static void ownOldMessageIsNotAnswered() {
-        CutDetectMember c = new CutDetectMember(5, 2, 1, 1);
-        Drive.must(c.fallback(0), "fallback(0)");
-        Drive.decideFast(c, 0, 4);
-        Drive.dropKind(c, CutDetectMember.WELCOME);
-        int[] before = Checks.processSnapshot(c);
-        int used = Drive.usedSlots(c);
-        Drive.give(c, CutDetectMember.PREPARE, 0, 0);
-        CHECKS.due("no welcome to itself", Drive.usedSlots(c), used);
-        CHECKS.due("no process changed", Arrays.equals(before, Checks.processSnapshot(c)), true);
-    }
-
-    private static void newerMessageIsIgnored() {
-        CutDetectMember c = new CutDetectMember(5, 2, 1, 1);
-        Drive.decideFast(c, 0, 4);
-        Drive.dropAll(c);
-        Drive.must(c.fallback(0), "fallback(0)");
-        Drive.must(c.observe(0, 3), "observe(0, 3)");
-        int[] before = Checks.processSnapshot(c);
-        Drive.give(c, CutDetectMember.PREPARE, 0, 1, 2);
-        Drive.give(c, CutDetectMember.ALERT, 0, 1, 2);
-        CHECKS.due("no answer", Drive.usedSlots(c), 2);
-        CHECKS.due("no process changed", Arrays.equals(before, Checks.processSnapshot(c)), true);
-    }
-
-    private static void onlyTheReceiverChanges() {
-        CutDetectMember c = new CutDetectMember(5, 2, 1, 1);
-        int o = Drive.alert(c, 0, 4);
-        for (int p = 0; p < 5; p++) {
-            int[] before = Checks.processSnapshot(c);
-            Drive.give(c, CutDetectMember.ALERT, o, p);
-            System.arraycopy(Checks.snapshotOf(c, p), 0, before, p * 45, 45);
-            CHECKS.due("only " + p + " changes", Arrays.equals(before, Checks.processSnapshot(c)), true);
-        }
-        for (int q = 0; q < 5; q++) {
-            int[] before = Checks.processSnapshot(c);
-            Drive.give(c, CutDetectMember.VOTE, q, 2);
-            System.arraycopy(Checks.snapshotOf(c, 2), 0, before, 90, 45);
-            CHECKS.due("only 2 changes", Arrays.equals(before, Checks.processSnapshot(c)), true);
-        }
+    private static int[] due(Answer answer) {
+        return switch (answer) {
+            case VOTE -> new int[] {CutDetectMember.VOTE, 1, 0, 16, 0, 0, 31};
+            case PROMISE -> new int[] {CutDetectMember.PROMISE, 1, 0, 16, -1, 0, 1};
+            case ACCEPT -> new int[] {CutDetectMember.ACCEPT, 1, 0, 17, 16, 0, 31};
+            case ACCEPTED -> new int[] {CutDetectMember.ACCEPTED, 1, 0, 16, 16, 0, 31};
+            case WELCOME_OF_VOTES, WELCOME_OF_ACCEPTED -> new int[] {CutDetectMember.WELCOME, 1, 1, 15, 16, 0, 16};
+            case WELCOME_OF_OLD -> new int[] {CutDetectMember.WELCOME, 1, 1, 15, 16, 0, 1};
+        };
     }
 }

@@ -15,6 +15,15 @@ final class Drive {
         return (1 << n) - 1;
     }
 
+    /** The ids from first to end - 1. */
+    static int[] range(int first, int end) {
+        int[] ids = new int[end - first];
+        for (int i = first; i < end; i++) {
+            ids[i - first] = i;
+        }
+        return ids;
+    }
+
     static int usedSlots(CutDetectMember c) {
         int used = 0;
         for (int slot = 0; slot < CutDetectMember.SLOTS; slot++) {
@@ -25,8 +34,15 @@ final class Drive {
 
     /** The lowest slot with a message of this kind from src, or -1. */
     static int find(CutDetectMember c, int kind, int src) {
+        return find(c, kind, src, 0xFFFF);
+    }
+
+    /** The lowest slot with a message of this kind from src that one of these has yet to receive, or -1. */
+    static int find(CutDetectMember c, int kind, int src, int receivers) {
         for (int slot = 0; slot < CutDetectMember.SLOTS; slot++) {
-            if (c.msg(slot, CutDetectMember.F_KIND) == kind && c.msg(slot, CutDetectMember.F_SRC) == src) {
+            boolean due = (c.msg(slot, CutDetectMember.F_DEST) & receivers) != 0;
+            boolean from = c.msg(slot, CutDetectMember.F_SRC) == src;
+            if (due && from && c.msg(slot, CutDetectMember.F_KIND) == kind) {
                 return slot;
             }
         }
@@ -47,18 +63,31 @@ final class Drive {
         }
     }
 
+    static void dropSlot(CutDetectMember c, int slot) {
+        for (int p = 0; p < 16; p++) {
+            c.drop(slot, p);
+        }
+    }
+
     static void dropAll(CutDetectMember c) {
         for (int slot = 0; slot < CutDetectMember.SLOTS; slot++) {
-            for (int p = 0; p < 16; p++) {
-                c.drop(slot, p);
-            }
+            dropSlot(c, slot);
         }
     }
 
     static void dropKind(CutDetectMember c, int kind) {
         for (int slot = 0; slot < CutDetectMember.SLOTS; slot++) {
-            for (int p = 0; p < 16 && c.msg(slot, CutDetectMember.F_KIND) == kind; p++) {
-                c.drop(slot, p);
+            if (c.msg(slot, CutDetectMember.F_KIND) == kind) {
+                dropSlot(c, slot);
+            }
+        }
+    }
+
+    /** Leaves p as the one process that has yet to receive the message. */
+    static void dropForOthers(CutDetectMember c, int slot, int p) {
+        for (int q = 0; q < 16; q++) {
+            if (q != p) {
+                c.drop(slot, q);
             }
         }
     }
@@ -68,6 +97,15 @@ final class Drive {
         int o = c.observer(by, s, 0);
         must(c.observe(o, s), "observe(" + o + ", " + s + ")");
         return o;
+    }
+
+    /** Sends an alert by o about the least subject that it observes. */
+    static void alertBy(CutDetectMember c, int o) {
+        int s = 0;
+        while (s < 16 && !c.observe(o, s)) {
+            s++;
+        }
+        must(s < 16, "an alert by " + o);
     }
 
     /** With H = L = 1: these processes cast the fast vote {s}; the alert is then dropped. */
@@ -96,20 +134,66 @@ final class Drive {
         must(c.configOf(p) == before + 1, "deciding");
     }
 
-    /** With n = 3 and H = L = 1: 2 is removed, and 0 and 1 know it; the pool is empty. */
-    static void shrinkToTwo(CutDetectMember c) {
-        castVotes(c, 2, 0, 1, 2);
-        for (int q = 0; q < 3; q++) {
-            give(c, CutDetectMember.VOTE, q, 0, 1);
-        }
-        must(c.configOf(0) == 1 && c.configOf(1) == 1, "removing 2");
-        dropAll(c);
+    /** p starts a round and these processes promise; the promises stay in their slots. */
+    static void prepared(CutDetectMember c, int p, int... promisers) {
+        must(c.fallback(p), "fallback(" + p + ")");
+        give(c, CutDetectMember.PREPARE, p, promisers);
+        dropKind(c, CutDetectMember.PREPARE);
     }
 
-    /** All 32 slots taken by messages of p that nobody has received. */
-    static void fillPool(CutDetectMember c, int p) {
+    static void promisesTo(CutDetectMember c, int p, int... promisers) {
+        for (int q : promisers) {
+            int slot = find(c, CutDetectMember.PROMISE, q, 1 << p);
+            must(c.deliver(slot, p), "the promise of " + q + " to " + p);
+        }
+    }
+
+    /** p starts a round, these CQ processes promise, and p sends its accept. */
+    static void acceptSent(CutDetectMember c, int p, int... promisers) {
+        prepared(c, p, promisers);
+        promisesTo(c, p, promisers);
+        must(c.paxos(p, CutDetectMember.P_PHASE) == 2, "the accept of " + p);
+    }
+
+    /**
+     * A slot with a message of this kind from q that p has yet to receive. All who are up have voted,
+     * their votes are undelivered, and the first three of them are CQ of their members.
+     */
+    static int pending(CutDetectMember c, int kind, int q, int p, int... up) {
+        switch (kind) {
+            case CutDetectMember.ALERT -> alertBy(c, q);
+            case CutDetectMember.VOTE -> must(c.proposalOf(q) != -1, "a vote of " + q);
+            case CutDetectMember.PREPARE -> must(c.fallback(q), "fallback(" + q + ")");
+            case CutDetectMember.PROMISE -> prepared(c, p, q);
+            case CutDetectMember.ACCEPT -> acceptSent(c, q, up[0], up[1], up[2]);
+            default -> {
+                acceptSent(c, up[0], up[0], up[1], up[2]);
+                give(c, CutDetectMember.ACCEPT, up[0], q);
+            }
+        }
+        int slot = find(c, kind, q, 1 << p);
+        must(slot != -1, "a message of kind " + kind + " from " + q + " to " + p);
+        return slot;
+    }
+
+    /** The members are 0..m-1, all of them in the same configuration with an empty pool; H = L = 1. */
+    static CutDetectMember members(int m) {
+        CutDetectMember c = new CutDetectMember(m, 2, 1, 1);
+        for (int last = 2; last >= m; last--) {
+            castVotes(c, last, range(0, last + 1));
+            for (int q = 0; q <= last; q++) {
+                give(c, CutDetectMember.VOTE, q, range(0, last));
+            }
+            dropAll(c);
+        }
+        must(c.membersOf(0) == all(m) && c.configOf(0) == Math.max(0, 3 - m), "having " + m + " members");
+        return c;
+    }
+
+    /** Takes all slots with alerts of o that nobody has received, so that no process changes. */
+    static void fillPool(CutDetectMember c, int o) {
         while (usedSlots(c) < CutDetectMember.SLOTS) {
-            must(c.fallback(p), "fallback(" + p + ")");
+            alertBy(c, o);
         }
     }
 }

@@ -1,69 +1,135 @@
-import java.util.Arrays;
-
 /** Promise 6: drop. */
 public final class DropTest {
     private static final Checks CHECKS = new Checks();
 
     public static void main(String[] args) {
-        refusals();
-        ordinary();
-        welcomesAndTheCrashed();
+        wrongSlots();
+        wrongIds();
+        noReceiver();
+        droppedAlready();
+        freeSlots();
+        takesOffOneReceiver();
+        lastReceiverFreesTheSlot();
+        everyKind();
+        forTheCrashed();
         CHECKS.end();
     }
 
-    private static void refusals() {
-        CutDetectMember c = new CutDetectMember(5, 2, 2, 1);
-        for (int slot = 0; slot < CutDetectMember.SLOTS; slot++) {
-            int free = slot;
-            CHECKS.refused("drop(" + slot + ", 0) of a free slot", c, () -> c.drop(free, 0));
+    /** "has the same refusals as deliver": slot is not in 0..SLOTS-1 */
+    private static void wrongSlots() {
+        CutDetectMember c = new CutDetectMember(16, 2, 2, 1);
+        Drive.fillPool(c, 0);
+        for (int wrong : Checks.WRONG_SLOTS) {
+            for (int p = 0; p < 16; p++) {
+                int receiver = p;
+                CHECKS.refused("drop(" + wrong + ", " + p + ")", c, () -> c.drop(wrong, receiver));
+            }
         }
-        Drive.must(c.observe(0, 4), "observe(0, 4)");
-        for (int wrong : new int[] {-1, 32, 33, -32, Integer.MIN_VALUE, Integer.MAX_VALUE}) {
-            CHECKS.refused("drop(" + wrong + ", 0)", c, () -> c.drop(wrong, 0));
-        }
+    }
+
+    /** "has the same refusals as deliver": p is not in 0..15 */
+    private static void wrongIds() {
+        CutDetectMember c = new CutDetectMember(16, 2, 2, 1);
+        Drive.fillPool(c, 0);
         for (int wrong : Checks.WRONG_IDS) {
-            CHECKS.refused("drop(0, " + wrong + ")", c, () -> c.drop(0, wrong));
+            for (int slot = 0; slot < CutDetectMember.SLOTS; slot++) {
+                int from = slot;
+                CHECKS.refused("drop(" + slot + ", " + wrong + ")", c, () -> c.drop(from, wrong));
+            }
         }
+    }
+
+    /** "has the same refusals as deliver": p is not in the dest of the slot */
+    private static void noReceiver() {
+        CutDetectMember c = new CutDetectMember(5, 2, 2, 1);
+        Drive.must(c.observe(0, 4), "observe(0, 4)");
         for (int p = 5; p < 16; p++) {
             int outsider = p;
             CHECKS.refused("drop(0, " + p + ") of no receiver", c, () -> c.drop(0, outsider));
         }
+        Drive.must(c.fallback(3) && c.deliver(1, 2), "a promise");
+        for (int p : new int[] {0, 1, 2, 4}) {
+            CHECKS.refused("drop(2, " + p + ") of a promise to 3", c, () -> c.drop(2, p));
+        }
+    }
+
+    private static void droppedAlready() {
+        CutDetectMember c = new CutDetectMember(5, 2, 2, 1);
+        Drive.must(c.observe(0, 4), "observe(0, 4)");
         CHECKS.due("drop(0, 2)", c.drop(0, 2), true);
         CHECKS.refused("drop(0, 2) again", c, () -> c.drop(0, 2));
         CHECKS.refused("deliver(0, 2) after the drop", c, () -> c.deliver(0, 2));
+        CHECKS.due("deliver(0, 3)", c.deliver(0, 3), true);
+        CHECKS.refused("drop(0, 3) after it was delivered", c, () -> c.drop(0, 3));
     }
 
-    private static void ordinary() {
-        CutDetectMember c = new CutDetectMember(5, 2, 1, 1);
-        Drive.must(c.observe(0, 4), "observe(0, 4)");
-        Drive.must(c.fallback(3), "fallback(3)");
-        int[] before = Checks.processSnapshot(c);
-        int dest = 31;
-        for (int p : new int[] {4, 0, 3, 1}) {
-            CHECKS.due("drop(0, " + p + ")", c.drop(0, p), true);
-            dest -= 1 << p;
-            CHECKS.message("after " + p, c, 0, CutDetectMember.ALERT, 0, 0, 4, 1, 0, dest);
+    /** "has the same refusals as deliver": a free slot has no dest */
+    private static void freeSlots() {
+        CutDetectMember c = new CutDetectMember(5, 2, 2, 1);
+        Drive.fillPool(c, 0);
+        Drive.dropAll(c);
+        for (int slot = 0; slot < CutDetectMember.SLOTS; slot++) {
+            for (int p = 0; p < 16; p++) {
+                int free = slot;
+                int receiver = p;
+                CHECKS.refused("drop(" + slot + ", " + p + ") of a free slot", c, () -> c.drop(free, receiver));
+            }
         }
-        CHECKS.due("drop(0, 2), the last", c.drop(0, 2), true);
+    }
+
+    /** drop(slot, p) must take p off the slot and change nothing else. */
+    private static void dropped(String what, CutDetectMember c, int slot, int p) {
+        int[] slots = Checks.slotsWithout(c, slot, p);
+        CHECKS.leavesProcesses(what + ", drop(" + slot + ", " + p + ")", c, () -> c.drop(slot, p));
+        CHECKS.same(what + " changes no slot but for the receiver", Checks.slotSnapshot(c), slots);
+    }
+
+    /** "Otherwise p is removed from the slot's dest and the call answers true." */
+    private static void takesOffOneReceiver() {
+        CutDetectMember c = new CutDetectMember(16, 2, 1, 1);
+        Drive.must(c.fallback(0) && c.fallback(3), "two messages");
+        int dest = 0xFFFF;
+        for (int p : new int[] {15, 0, 7, 8, 1, 14}) {
+            dest -= 1 << p;
+            dropped("receiver " + p, c, 1, p);
+            CHECKS.message("after " + p, c, 1, CutDetectMember.PREPARE, 3, 0, 19, 0, 0, dest);
+        }
+    }
+
+    /** "If dest became 0 the slot is free." */
+    private static void lastReceiverFreesTheSlot() {
+        CutDetectMember c = new CutDetectMember(5, 2, 1, 1);
+        Drive.must(c.observe(0, 4) && c.fallback(3), "two messages");
+        for (int p : new int[] {4, 0, 3, 1}) {
+            Drive.must(c.drop(0, p), "drop");
+        }
+        CHECKS.message("before the last", c, 0, CutDetectMember.ALERT, 0, 0, 4, 1, 0, 4);
+        dropped("the last", c, 0, 2);
         CHECKS.freeSlot("after the last", c, 0);
         CHECKS.message("the other slot stays", c, 1, CutDetectMember.PREPARE, 3, 0, 19, 0, 0, 31);
-        CHECKS.due("no process changed", Arrays.equals(before, Checks.processSnapshot(c)), true);
-        CHECKS.due("used slots", Drive.usedSlots(c), 1);
-        Drive.must(c.observe(1, 4), "observe(1, 4)");
+        CHECKS.due("observe(1, 4)", c.observe(1, 4), true);
         CHECKS.message("the free slot is used again", c, 0, CutDetectMember.ALERT, 1, 0, 4, 2, 0, 31);
     }
 
-    private static void welcomesAndTheCrashed() {
+    /** "Nothing else changes; in particular no process state changes." */
+    private static void everyKind() {
+        for (int kind = CutDetectMember.ALERT; kind <= CutDetectMember.ACCEPTED; kind++) {
+            CutDetectMember c = new CutDetectMember(5, 2, 1, 1);
+            Drive.castVotes(c, 4, 0, 1, 2);
+            dropped("kind " + kind, c, Drive.pending(c, kind, 1, 3, 0, 1, 2), 3);
+        }
         CutDetectMember c = new CutDetectMember(5, 2, 1, 1);
         Drive.decideFast(c, 0, 7);
-        int welcome = Drive.find(c, CutDetectMember.WELCOME, 0);
-        CHECKS.due("drop a welcome", c.drop(welcome, 7), true);
-        CHECKS.due("configOf(7)", c.configOf(7), 0);
-        CHECKS.freeSlot("the welcome is gone", c, welcome);
-        Drive.must(c.fallback(1), "fallback(1)");
-        Drive.must(c.crash(2), "crash(2)");
-        int prepare = Drive.find(c, CutDetectMember.PREPARE, 1);
-        CHECKS.due("drop for a crashed one", c.drop(prepare, 2), true);
-        CHECKS.due("the rest are still due", c.msg(prepare, CutDetectMember.F_DEST), 27);
+        dropped("a welcome", c, Drive.find(c, CutDetectMember.WELCOME, 0), 7);
+        CHECKS.installed("not welcomed", c, 7, 0, 31, 0);
+        // One that is ahead answers old messages when it receives them, but not when it loses them.
+        dropped("an old message", c, Drive.find(c, CutDetectMember.VOTE, 4), 0);
+    }
+
+    private static void forTheCrashed() {
+        CutDetectMember c = new CutDetectMember(5, 2, 1, 1);
+        Drive.must(c.fallback(1) && c.crash(2) && c.crash(1), "a message of a crashed process");
+        dropped("for a crashed one", c, 0, 2);
+        dropped("for its sender", c, 0, 1);
     }
 }

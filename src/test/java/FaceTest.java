@@ -103,7 +103,8 @@ public final class FaceTest {
         Matcher banned = Pattern.compile("\\b(" + BANNED + ")\\b|->|::|\"").matcher(code);
         CHECKS.due("a word outside LANGUAGE.md", banned.find(), false);
         Matcher made = Pattern.compile("\\bnew\\b").matcher(code);
-        Matcher inField = Pattern.compile("(?m)^    private final \\w+\\[\\] \\w+ = new \\w+\\[[A-Z_]+\\];$").matcher(code);
+        String field = "(?m)^    private final \\w+\\[\\] \\w+ = new \\w+\\[[A-Z_]+\\];$";
+        Matcher inField = Pattern.compile(field).matcher(code);
         CHECKS.due("arrays are made in fields alone", made.results().count(), inField.results().count());
         Map<String, String> bodies = bodies(code);
         CHECKS.due("all methods are found", bodies.size(), CutDetectMember.class.getDeclaredMethods().length + 1);

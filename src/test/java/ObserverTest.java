@@ -1,5 +1,3 @@
-import java.util.Arrays;
-
 /** Promise 15: observer. */
 public final class ObserverTest {
     private static final Checks CHECKS = new Checks();
@@ -15,16 +13,25 @@ public final class ObserverTest {
     };
 
     public static void main(String[] args) {
+        everyNumberOfMembers();
+        ringsBeyondK();
+        wrongProcess();
+        wrongSubject();
+        everyStatus();
+        ownMembers();
+        oneMember();
+        twoMembers();
+        noMember();
+        CHECKS.end();
+    }
+
+    /** "the observer of subject s on ring r is the y in M with y != s and the least (key(r,y)-key(r,s)+17) % 17." */
+    private static void everyNumberOfMembers() {
         for (int n = 3; n <= 16; n++) {
             CutDetectMember c = new CutDetectMember(n, 6, 6, 1);
             everySubject("n = " + n, c, 0);
             everySubject("n = " + n, c, 15);
         }
-        ringsBeyondK();
-        wrongIds();
-        ownMembersWhateverTheStatus();
-        oneMember();
-        CHECKS.end();
     }
 
     private static void everySubject(String what, CutDetectMember c, int p) {
@@ -51,58 +58,109 @@ public final class ObserverTest {
         return -1;
     }
 
+    /** "r is not in 0..K-1" */
     private static void ringsBeyondK() {
         for (int k = 2; k <= 6; k++) {
-            CutDetectMember c = new CutDetectMember(5, k, 1, 1);
-            for (int r = -3; r <= 9; r++) {
-                boolean ring = c.observer(0, 1, r) != -1;
-                CHECKS.due("k = " + k + ", observer(0, 1, " + r + ")", ring, r >= 0 && r < k);
+            CutDetectMember c = new CutDetectMember(16, k, 1, 1);
+            for (int s = 0; s < 16; s++) {
+                for (int r = 0; r < k; r++) {
+                    int due = next(0xFFFF, s, r);
+                    CHECKS.due("k = " + k + ", observer(0, " + s + ", " + r + ")", c.observer(0, s, r), due);
+                }
+                for (int r : new int[] {-1, -2, k, k + 1, 6, 17, Integer.MIN_VALUE, Integer.MAX_VALUE}) {
+                    CHECKS.due("k = " + k + ", observer(0, " + s + ", " + r + ")", c.observer(0, s, r), -1);
+                }
             }
-            CHECKS.due("ring Integer.MIN_VALUE", c.observer(0, 1, Integer.MIN_VALUE), -1);
-            CHECKS.due("ring Integer.MAX_VALUE", c.observer(0, 1, Integer.MAX_VALUE), -1);
         }
     }
 
-    private static void wrongIds() {
+    /** "p or s is not in 0..15" */
+    private static void wrongProcess() {
+        CutDetectMember c = new CutDetectMember(16, 6, 6, 1);
+        int[] before = Checks.snapshot(c);
+        for (int wrong : Checks.WRONG_IDS) {
+            for (int s = -1; s <= 16; s++) {
+                CHECKS.due("observer(" + wrong + ", " + s + ", 0)", c.observer(wrong, s, 0), -1);
+                CHECKS.due("observer(" + wrong + ", " + s + ", 5)", c.observer(wrong, s, 5), -1);
+            }
+        }
+        CHECKS.same("observer changes nothing", Checks.snapshot(c), before);
+    }
+
+    /** "p or s is not in 0..15" */
+    private static void wrongSubject() {
         CutDetectMember c = new CutDetectMember(16, 6, 6, 1);
         int[] before = Checks.snapshot(c);
         for (int wrong : Checks.WRONG_IDS) {
             for (int p = -1; p <= 16; p++) {
-                CHECKS.due("observer(" + wrong + ", " + p + ", 0)", c.observer(wrong, p, 0), -1);
                 CHECKS.due("observer(" + p + ", " + wrong + ", 0)", c.observer(p, wrong, 0), -1);
+                CHECKS.due("observer(" + p + ", " + wrong + ", 5)", c.observer(p, wrong, 5), -1);
             }
         }
-        CHECKS.due("observer changes nothing", Arrays.equals(before, Checks.snapshot(c)), true);
+        CHECKS.same("observer changes nothing", Checks.snapshot(c), before);
     }
 
-    private static void ownMembersWhateverTheStatus() {
+    /** "whatever the status of p." */
+    private static void everyStatus() {
         CutDetectMember c = new CutDetectMember(5, 6, 1, 1);
         Drive.decideFast(c, 0, 2);
         Drive.give(c, CutDetectMember.WELCOME, 0, 2);
-        everySubject("ahead", c, 0);
-        everySubject("behind", c, 1);
-        everySubject("out", c, 2);
+        Drive.must(c.crash(0) && c.crash(3) && c.crash(12), "crash");
+        int[] before = Checks.snapshot(c);
+        everySubject("crashed and ahead", c, 0);
+        everySubject("member", c, 1);
+        everySubject("removed", c, 2);
+        everySubject("crashed", c, 3);
         everySubject("never in", c, 9);
-        CHECKS.due("observer(0, 1, 0)", c.observer(0, 1, 0), 3);
-        CHECKS.due("observer(1, 1, 0)", c.observer(1, 1, 0), 2);
-        CHECKS.due("observer(2, 1, 0)", c.observer(2, 1, 0), 3);
-        Drive.must(c.crash(0), "crash(0)");
-        Drive.must(c.crash(3), "crash(3)");
-        everySubject("crashed", c, 0);
+        everySubject("crashed and never in", c, 12);
         CHECKS.due("a crashed one is still an observer", c.observer(0, 1, 0), 3);
+        CHECKS.same("observer changes nothing", Checks.snapshot(c), before);
     }
 
+    /** "in mem(p)": not in that of the subject or of the newest configuration. */
+    private static void ownMembers() {
+        CutDetectMember c = new CutDetectMember(5, 6, 1, 1);
+        Drive.decideFast(c, 0, 2);
+        CHECKS.due("observer(0, 1, 0)", c.observer(0, 1, 0), 3);
+        CHECKS.due("observer(1, 1, 0)", c.observer(1, 1, 0), 2);
+        CHECKS.due("observer(2, 1, 0)", c.observer(2, 1, 0), 2);
+        CHECKS.due("observer(15, 1, 0)", c.observer(15, 1, 0), 2);
+    }
+
+    /** "there is no observer": M holds the subject alone. */
     private static void oneMember() {
-        CutDetectMember c = new CutDetectMember(3, 6, 1, 1);
-        Drive.shrinkToTwo(c);
-        Drive.castVotes(c, 1, 0, 1);
-        Drive.give(c, CutDetectMember.VOTE, 0, 0);
-        Drive.give(c, CutDetectMember.VOTE, 1, 0);
-        CHECKS.due("membersOf(0)", c.membersOf(0), 1);
-        for (int r = 0; r < 6; r++) {
+        CutDetectMember c = Drive.members(1);
+        for (int r = 0; r < 2; r++) {
             CHECKS.due("observer(0, 0, " + r + ")", c.observer(0, 0, r), -1);
             for (int s = 1; s < 16; s++) {
                 CHECKS.due("observer(0, " + s + ", " + r + ")", c.observer(0, s, r), 0);
+            }
+        }
+    }
+
+    private static void twoMembers() {
+        CutDetectMember c = Drive.members(2);
+        for (int r = 0; r < 2; r++) {
+            CHECKS.due("observer(0, 0, " + r + ")", c.observer(0, 0, r), 1);
+            CHECKS.due("observer(0, 1, " + r + ")", c.observer(0, 1, r), 0);
+        }
+    }
+
+    /** "there is no observer": M is empty. */
+    private static void noMember() {
+        CutDetectMember c = new CutDetectMember(3, 6, 6, 1);
+        int[][] alerts = {{1, 0}, {2, 1}, {0, 2}, {2, 0}, {0, 1}, {1, 2}};
+        for (int[] alert : alerts) {
+            Drive.must(c.observe(alert[0], alert[1]), "observe");
+            Drive.give(c, CutDetectMember.ALERT, alert[0], 0, 1, 2);
+        }
+        for (int q = 0; q < 3; q++) {
+            Drive.give(c, CutDetectMember.VOTE, q, 1);
+        }
+        CHECKS.due("membersOf(1)", c.membersOf(1), 0);
+        for (int s = 0; s < 16; s++) {
+            for (int r = 0; r < 6; r++) {
+                CHECKS.due("observer(1, " + s + ", " + r + ")", c.observer(1, s, r), -1);
             }
         }
     }
