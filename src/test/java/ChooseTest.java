@@ -11,10 +11,14 @@ public final class ChooseTest {
         greatestRoundOfTheGreaterProcess();
         greatestRoundOfTheLesserProcess();
         allOfOneRound();
+        classicOfTheLastProcess();
+        promisesOfAnEarlierRound();
         for (int m = 1; m <= 16; m++) {
             fastShareReached(m, CLASSIC_QUORUM[m - 1], FAST_SHARE[m - 1]);
             fastShareMissed(m, CLASSIC_QUORUM[m - 1], FAST_SHARE[m - 1]);
         }
+        moreThanTheFastShare();
+        fastShareWithTheLastProcess();
         fastShareNotNextToEachOther();
         fastShareBeatsTheOwnVote();
         leastFastVoter();
@@ -114,6 +118,30 @@ public final class ChooseTest {
         chosen("all have accepted round 16", c, 1, 1, 8);
     }
 
+    private static void classicOfTheLastProcess() {
+        CutDetectMember c = new CutDetectMember(16, 2, 1, 1);
+        Drive.castVotes(c, 3, 0);
+        Drive.acceptSent(c, 0, Drive.range(0, 9));
+        Drive.give(c, CutDetectMember.ACCEPT, 0, 15);
+        Drive.prepared(c, 9, Drive.range(7, 16));
+        Drive.promisesTo(c, 9, Drive.range(8, 16));
+        chosen("accepted by 15 alone", c, 9, 7, 8);
+    }
+
+    /** "CHOOSE over the q in prom(p)": what was recorded for an earlier round is over. */
+    private static void promisesOfAnEarlierRound() {
+        CutDetectMember c = new CutDetectMember(5, 2, 1, 1);
+        Drive.castVotes(c, 3, 0);
+        Drive.acceptSent(c, 0, 0, 1, 2);
+        Drive.give(c, CutDetectMember.ACCEPT, 0, 1);
+        Drive.prepared(c, 2, 1);
+        Drive.promisesTo(c, 2, 1);
+        Drive.castVotes(c, 4, 4);
+        Drive.prepared(c, 2, 2, 3, 4);
+        Drive.promisesTo(c, 2, 2, 3);
+        chosen("the vote of 4, not what 1 has accepted", c, 2, 4, 16);
+    }
+
     /** Process 0 has voted for one cut, and the `alike` processes after it for another. */
     private static CutDetectMember votedApart(int m, int quorum, int alike) {
         CutDetectMember c = Drive.members(m);
@@ -149,6 +177,27 @@ public final class ChooseTest {
             CutDetectMember c = votedApart(m, quorum, share - 1);
             chosen(m + " members, T - 1 alike", c, m - 1, quorum - 1, 1 << m - 1);
         }
+    }
+
+    /** "at least T": T is 5 of sixteen members, and all but one of CQ are alike. */
+    private static void moreThanTheFastShare() {
+        CutDetectMember c = new CutDetectMember(16, 2, 1, 1);
+        Drive.castVotes(c, 4, 0);
+        Drive.castVotes(c, 5, Drive.range(1, 9));
+        Drive.dropAll(c);
+        Drive.prepared(c, 9, Drive.range(0, 9));
+        Drive.promisesTo(c, 9, Drive.range(0, 8));
+        chosen("eight alike", c, 9, 8, 32);
+    }
+
+    private static void fastShareWithTheLastProcess() {
+        CutDetectMember c = new CutDetectMember(16, 2, 1, 1);
+        Drive.castVotes(c, 4, 7);
+        Drive.castVotes(c, 5, Drive.range(11, 16));
+        Drive.dropAll(c);
+        Drive.prepared(c, 9, Drive.range(7, 16));
+        Drive.promisesTo(c, 9, Drive.range(8, 16));
+        chosen("five alike, 15 among them", c, 9, 7, 32);
     }
 
     private static void fastShareNotNextToEachOther() {

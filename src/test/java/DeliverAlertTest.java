@@ -20,6 +20,7 @@ public final class DeliverAlertTest {
         promisedAlready();
         acceptedAlready();
         ownRoundIsNoPromise();
+        voteToTheOwnMembers();
         CHECKS.end();
     }
 
@@ -210,6 +211,16 @@ public final class DeliverAlertTest {
         Drive.give(c, CutDetectMember.ACCEPT, 0, 3);
         counted("after an accept", c, 3, 4, 3, 1);
         CHECKS.rounds("accepted", c, 3, 16, 16, 16, 0, 0, 0, 0, 0);
+    }
+
+    /** "do BROADCAST(p, VOTE, S, 0, 0)": to the members that p knows of, in its configuration. */
+    private static void voteToTheOwnMembers() {
+        CutDetectMember c = new CutDetectMember(5, 2, 1, 1);
+        Drive.decideFast(c, 2, 0);
+        Drive.dropAll(c);
+        CHECKS.due("membersOf(0)", c.membersOf(0), 31);
+        CHECKS.due("membersOf(2)", c.membersOf(2), 30);
+        proposed("one that is ahead", c, 2, 2, 1, 2, 2);
     }
 
     /** A round that p coordinates, but has not promised itself, does not keep p from voting. */

@@ -20,6 +20,7 @@ public final class DeliverRoundTest {
         acceptEqualToThePromise();
         acceptBelowThePromise();
         acceptBelowByOne();
+        acceptedToTheOwnMembers();
         acceptedOfTheFirstRound();
         acceptedOfANewerRound();
         acceptedOfTheSameRound();
@@ -201,6 +202,22 @@ public final class DeliverRoundTest {
         Drive.give(c, CutDetectMember.PREPARE, 1, 3);
         CHECKS.due("promised(3)", c.paxos(3, CutDetectMember.P_PROMISED), 17);
         CHECKS.withoutEffect("round 16 after a promise of 17", c, Drive.find(c, CutDetectMember.ACCEPT, 0), 3);
+    }
+
+    /** "do BROADCAST(p, ACCEPTED, x, y, 0)": to the members that p knows of, in its configuration. */
+    private static void acceptedToTheOwnMembers() {
+        CutDetectMember c = new CutDetectMember(6, 2, 1, 1);
+        Drive.castVotes(c, 5, 0, 1, 2, 3, 4);
+        for (int q = 0; q < 5; q++) {
+            Drive.give(c, CutDetectMember.VOTE, q, 1, 2, 3);
+        }
+        Drive.dropAll(c);
+        Drive.castVotes(c, 1, 1);
+        Drive.acceptSent(c, 3, 1, 2, 3);
+        CHECKS.due("membersOf(0)", c.membersOf(0), 63);
+        int[] message = {CutDetectMember.ACCEPTED, 2, 1, 19, 2, 0, 31};
+        int slot = Drive.find(c, CutDetectMember.ACCEPT, 3);
+        sends("one that is ahead", c, slot, 2, message, 19, 19, 2, 0, 0, 0, 0, 0);
     }
 
     /** "If x > lrnd(p): set lrnd(p) = x, lset(p) = {q}, lval(p) = y." */

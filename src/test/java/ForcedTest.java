@@ -22,6 +22,8 @@ public final class ForcedTest {
         acceptedTwiceByOne();
         valueOfTheFirstAccepted();
         acceptedOfRoundZero();
+        learnedValueIsFreshAgain();
+        countIsMasked();
         configurationsWrapAround();
         destinationsAreMasked();
         outsiderAndItsOwnConfiguration();
@@ -195,6 +197,29 @@ public final class ForcedTest {
         CHECKS.rounds("two senders", c, 1, 0, -1, 0, 0, 0, 0, 2, 0);
         CHECKS.unanswered("third", c, accepted(c, 4, 0, 4, 1), 1);
         CHECKS.installed("third", c, 1, 1, 31, 0);
+    }
+
+    /** "puts all per-configuration state of p back to fresh values.": lval(p) too. */
+    private static void learnedValueIsFreshAgain() throws ReflectiveOperationException {
+        CutDetectMember c = Drive.members(1);
+        Drive.must(c.deliver(accepted(c, 0, 16, 0x8000, 0), 0), "deciding that 15 joins");
+        CHECKS.installed("decided", c, 0, 3, 0x8001, 0x8000);
+        Drive.dropAll(c);
+        CHECKS.unanswered("first", c, accepted(c, 0, 0, 4, 0), 0);
+        CHECKS.unanswered("second", c, accepted(c, 15, 0, 4, 0), 0);
+        CHECKS.installed("the fresh value", c, 0, 4, 0x8001, 0);
+    }
+
+    /** "count(x) is the number of 1 bits of (x & 0xFFFF)." */
+    private static void countIsMasked() throws ReflectiveOperationException {
+        CutDetectMember c = new CutDetectMember(5, 6, 6, 6);
+        CHECKS.due("alert", c.deliver(put(c, CutDetectMember.ALERT, 1, 0, 4, 0x7FFF0003, 0, 1), 0), true);
+        CHECKS.due("reportCount(0, 4)", c.reportCount(0, 4), 2);
+        CHECKS.due("alert", c.deliver(put(c, CutDetectMember.ALERT, 1, 0, 3, -1, 0, 1), 0), true);
+        CHECKS.due("reportCount(0, 3)", c.reportCount(0, 3), 16);
+        CHECKS.due("welcome", c.deliver(put(c, CutDetectMember.WELCOME, 1, 1, 0x30002, 1, 0, 2), 1), true);
+        CHECKS.due("one vote of one member", c.deliver(vote(c, 9, 4, 1), 1), true);
+        CHECKS.due("configOf(1)", c.configOf(1), 2);
     }
 
     /** "All arithmetic is Java int arithmetic, wrapping as Java does.": cfg(p)+1. */
