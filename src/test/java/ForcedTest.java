@@ -201,13 +201,14 @@ public final class ForcedTest {
 
     /** "puts all per-configuration state of p back to fresh values.": lval(p) too. */
     private static void learnedValueIsFreshAgain() throws ReflectiveOperationException {
-        CutDetectMember c = Drive.members(1);
-        Drive.must(c.deliver(accepted(c, 0, 16, 0x8000, 0), 0), "deciding that 15 joins");
-        CHECKS.installed("decided", c, 0, 3, 0x8001, 0x8000);
+        CutDetectMember c = new CutDetectMember(5, 2, 1, 1);
+        Drive.must(c.deliver(put(c, CutDetectMember.WELCOME, 0, 1, 2, 29, 0, 2), 1), "being the one member");
+        Drive.must(c.deliver(accepted(c, 1, 16, 0x8000, 1), 1), "deciding that 15 joins");
+        CHECKS.installed("decided", c, 1, 2, 0x8002, 0x8000);
         Drive.dropAll(c);
-        CHECKS.unanswered("first", c, accepted(c, 0, 0, 4, 0), 0);
-        CHECKS.unanswered("second", c, accepted(c, 15, 0, 4, 0), 0);
-        CHECKS.installed("the fresh value", c, 0, 4, 0x8001, 0);
+        CHECKS.unanswered("first", c, accepted(c, 1, 0, 4, 1), 1);
+        CHECKS.unanswered("second", c, accepted(c, 15, 0, 4, 1), 1);
+        CHECKS.installed("the fresh value", c, 1, 3, 0x8002, 0);
     }
 
     /** "count(x) is the number of 1 bits of (x & 0xFFFF)." */
