@@ -281,11 +281,7 @@ public final class ChooseTest {
 
     /** "Quorums are always those of p at the moment of the rule.": T is 3 of six members, and 2 of five. */
     private static void quorumOfTheNewMembers() {
-        CutDetectMember c = new CutDetectMember(6, 2, 1, 1);
-        Drive.castVotes(c, 5, 0, 1, 2, 3, 4);
-        for (int q = 0; q < 5; q++) {
-            Drive.give(c, CutDetectMember.VOTE, q, 1, 2, 3);
-        }
+        CutDetectMember c = Drive.ahead(6, 5, 1, 2, 3);
         Drive.castVotes(c, 1, 1);
         Drive.castVotes(c, 2, 2, 3);
         Drive.dropAll(c);

@@ -47,12 +47,7 @@ public final class CrashTest {
 
     /** "All of p's other state stays as it was and stays readable through the getters." */
     private static void stateStaysReadable() {
-        CutDetectMember c = new CutDetectMember(5, 2, 1, 1);
-        Drive.castVotes(c, 4, 0, 1, 2, 3, 4);
-        for (int q = 0; q < 4; q++) {
-            Drive.give(c, CutDetectMember.VOTE, q, 0, 1, 2);
-        }
-        Drive.dropAll(c);
+        CutDetectMember c = Drive.ahead(5, 4, 0, 1, 2);
         Drive.castVotes(c, 7, 0, 1, 2);
         Drive.acceptSent(c, 2, 0, 1, 2);
         Drive.give(c, CutDetectMember.ACCEPT, 2, 0, 2);

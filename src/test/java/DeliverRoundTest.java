@@ -206,12 +206,7 @@ public final class DeliverRoundTest {
 
     /** "do BROADCAST(p, ACCEPTED, x, y, 0)": to the members that p knows of, in its configuration. */
     private static void acceptedToTheOwnMembers() {
-        CutDetectMember c = new CutDetectMember(6, 2, 1, 1);
-        Drive.castVotes(c, 5, 0, 1, 2, 3, 4);
-        for (int q = 0; q < 5; q++) {
-            Drive.give(c, CutDetectMember.VOTE, q, 1, 2, 3);
-        }
-        Drive.dropAll(c);
+        CutDetectMember c = Drive.ahead(6, 5, 1, 2, 3);
         Drive.castVotes(c, 1, 1);
         Drive.acceptSent(c, 3, 1, 2, 3);
         CHECKS.due("membersOf(0)", c.membersOf(0), 63);
@@ -331,12 +326,7 @@ public final class DeliverRoundTest {
 
     /** "Quorums are always those of p at the moment of the rule.": CQ is 4 of six members, and 3 of five. */
     private static void quorumOfTheNewMembers() {
-        CutDetectMember c = new CutDetectMember(6, 2, 1, 1);
-        Drive.castVotes(c, 5, 0, 1, 2, 3, 4);
-        for (int q = 0; q < 5; q++) {
-            Drive.give(c, CutDetectMember.VOTE, q, 1, 2, 3);
-        }
-        Drive.dropAll(c);
+        CutDetectMember c = Drive.ahead(6, 5, 1, 2, 3);
         Drive.castVotes(c, 1, 1);
         Drive.prepared(c, 3, 1, 2, 3);
         Drive.promisesTo(c, 3, 1, 2);

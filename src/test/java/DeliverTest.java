@@ -8,11 +8,7 @@ public final class DeliverTest {
     private enum Answer { VOTE, PROMISE, ACCEPT, ACCEPTED, WELCOME_OF_VOTES, WELCOME_OF_ACCEPTED, WELCOME_OF_OLD }
 
     public static void main(String[] args) {
-        wrongSlots();
-        wrongIds();
-        noReceiver();
-        receivedAlready();
-        freeSlots();
+        new SlotRefusals(CHECKS, "deliver", CutDetectMember::deliver).all();
         takesOffOneReceiver();
         lastReceiverFreesTheSlot();
         lowestFreeSlotTakesTheAnswer();
@@ -21,71 +17,6 @@ public final class DeliverTest {
             answerIsLost(answer);
         }
         CHECKS.end();
-    }
-
-    /** "slot is not in 0..SLOTS-1" */
-    private static void wrongSlots() {
-        CutDetectMember c = new CutDetectMember(16, 2, 2, 1);
-        Drive.fillPool(c, 0);
-        for (int wrong : Checks.WRONG_SLOTS) {
-            for (int p = 0; p < 16; p++) {
-                int receiver = p;
-                CHECKS.refused("deliver(" + wrong + ", " + p + ")", c, () -> c.deliver(wrong, receiver));
-            }
-        }
-    }
-
-    /** "p is not in 0..15" */
-    private static void wrongIds() {
-        CutDetectMember c = new CutDetectMember(16, 2, 2, 1);
-        Drive.fillPool(c, 0);
-        for (int wrong : Checks.WRONG_IDS) {
-            for (int slot = 0; slot < CutDetectMember.SLOTS; slot++) {
-                int from = slot;
-                CHECKS.refused("deliver(" + slot + ", " + wrong + ")", c, () -> c.deliver(from, wrong));
-            }
-        }
-    }
-
-    /** "p is not in the dest of the slot." */
-    private static void noReceiver() {
-        CutDetectMember c = new CutDetectMember(5, 2, 2, 1);
-        Drive.must(c.observe(0, 4), "observe(0, 4)");
-        for (int p = 5; p < 16; p++) {
-            int outsider = p;
-            CHECKS.refused("deliver(0, " + p + ") to no receiver", c, () -> c.deliver(0, outsider));
-        }
-        Drive.must(c.fallback(3) && c.deliver(1, 2), "a promise");
-        CHECKS.message("a promise to 3 alone", c, 2, CutDetectMember.PROMISE, 2, 0, 19, -1, 0, 8);
-        for (int p : new int[] {0, 1, 2, 4}) {
-            CHECKS.refused("deliver(2, " + p + ") of a promise to 3", c, () -> c.deliver(2, p));
-        }
-    }
-
-    /** "p is not in the dest of the slot.": it was, but has received the message or lost it. */
-    private static void receivedAlready() {
-        CutDetectMember c = new CutDetectMember(5, 2, 2, 1);
-        Drive.must(c.observe(0, 4), "observe(0, 4)");
-        CHECKS.due("deliver(0, 2)", c.deliver(0, 2), true);
-        CHECKS.refused("deliver(0, 2) again", c, () -> c.deliver(0, 2));
-        CHECKS.due("drop(0, 3)", c.drop(0, 3), true);
-        CHECKS.refused("deliver(0, 3) after the drop", c, () -> c.deliver(0, 3));
-        CHECKS.due("reportCount(2, 4)", c.reportCount(2, 4), 1);
-        CHECKS.due("reportCount(3, 4)", c.reportCount(3, 4), 0);
-    }
-
-    /** "A free slot has dest 0, so delivering from it is always refused." */
-    private static void freeSlots() {
-        CutDetectMember c = new CutDetectMember(5, 2, 2, 1);
-        Drive.fillPool(c, 0);
-        Drive.dropAll(c);
-        for (int slot = 0; slot < CutDetectMember.SLOTS; slot++) {
-            for (int p = 0; p < 16; p++) {
-                int free = slot;
-                int receiver = p;
-                CHECKS.refused("deliver(" + slot + ", " + p + ") of a free slot", c, () -> c.deliver(free, receiver));
-            }
-        }
     }
 
     /** "p is removed from dest." */

@@ -117,12 +117,7 @@ public final class DeliverVoteTest {
 
     /** "Quorums are always those of p at the moment of the rule.": of four members FQ is 3, of five it was 4. */
     private static void quorumOfTheNewMembers() {
-        CutDetectMember c = new CutDetectMember(5, 2, 1, 1);
-        Drive.castVotes(c, 4, 0, 1, 2, 3);
-        for (int q = 0; q < 4; q++) {
-            Drive.give(c, CutDetectMember.VOTE, q, 0, 1, 2);
-        }
-        Drive.dropAll(c);
+        CutDetectMember c = Drive.ahead(5, 4, 0, 1, 2);
         Drive.castVotes(c, 9, 0, 1, 2);
         learned("first of four", c, 0, 0, 512);
         learned("second of four", c, 0, 1, 512);

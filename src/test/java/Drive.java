@@ -190,6 +190,31 @@ final class Drive {
         return c;
     }
 
+    /** Of n members, with H = L = 1, these have decided the cut {s}; the others are behind, the pool is empty. */
+    static CutDetectMember ahead(int n, int s, int... deciders) {
+        CutDetectMember c = new CutDetectMember(n, 2, 1, 1);
+        castVotes(c, s, range(0, n));
+        for (int p : deciders) {
+            for (int q = 0; q < n && c.configOf(p) == 0; q++) {
+                give(c, CutDetectMember.VOTE, q, p);
+            }
+            must(c.configOf(p) == 1, "deciding");
+        }
+        dropAll(c);
+        return c;
+    }
+
+    /** All three members have voted that all of them leave, and their votes are undelivered. */
+    static CutDetectMember allToLeave() {
+        CutDetectMember c = new CutDetectMember(3, 6, 6, 1);
+        int[][] alerts = {{1, 0}, {2, 1}, {0, 2}, {2, 0}, {0, 1}, {1, 2}};
+        for (int[] alert : alerts) {
+            must(c.observe(alert[0], alert[1]), "observe(" + alert[0] + ", " + alert[1] + ")");
+            give(c, CutDetectMember.ALERT, alert[0], 0, 1, 2);
+        }
+        return c;
+    }
+
     /** Takes all slots with alerts of o that nobody has received, so that no process changes. */
     static void fillPool(CutDetectMember c, int o) {
         while (usedSlots(c) < CutDetectMember.SLOTS) {

@@ -3,78 +3,13 @@ public final class DropTest {
     private static final Checks CHECKS = new Checks();
 
     public static void main(String[] args) {
-        wrongSlots();
-        wrongIds();
-        noReceiver();
-        droppedAlready();
-        freeSlots();
+        // "has the same refusals as deliver."
+        new SlotRefusals(CHECKS, "drop", CutDetectMember::drop).all();
         takesOffOneReceiver();
         lastReceiverFreesTheSlot();
         everyKind();
         forTheCrashed();
         CHECKS.end();
-    }
-
-    /** "has the same refusals as deliver": slot is not in 0..SLOTS-1 */
-    private static void wrongSlots() {
-        CutDetectMember c = new CutDetectMember(16, 2, 2, 1);
-        Drive.fillPool(c, 0);
-        for (int wrong : Checks.WRONG_SLOTS) {
-            for (int p = 0; p < 16; p++) {
-                int receiver = p;
-                CHECKS.refused("drop(" + wrong + ", " + p + ")", c, () -> c.drop(wrong, receiver));
-            }
-        }
-    }
-
-    /** "has the same refusals as deliver": p is not in 0..15 */
-    private static void wrongIds() {
-        CutDetectMember c = new CutDetectMember(16, 2, 2, 1);
-        Drive.fillPool(c, 0);
-        for (int wrong : Checks.WRONG_IDS) {
-            for (int slot = 0; slot < CutDetectMember.SLOTS; slot++) {
-                int from = slot;
-                CHECKS.refused("drop(" + slot + ", " + wrong + ")", c, () -> c.drop(from, wrong));
-            }
-        }
-    }
-
-    /** "has the same refusals as deliver": p is not in the dest of the slot */
-    private static void noReceiver() {
-        CutDetectMember c = new CutDetectMember(5, 2, 2, 1);
-        Drive.must(c.observe(0, 4), "observe(0, 4)");
-        for (int p = 5; p < 16; p++) {
-            int outsider = p;
-            CHECKS.refused("drop(0, " + p + ") of no receiver", c, () -> c.drop(0, outsider));
-        }
-        Drive.must(c.fallback(3) && c.deliver(1, 2), "a promise");
-        for (int p : new int[] {0, 1, 2, 4}) {
-            CHECKS.refused("drop(2, " + p + ") of a promise to 3", c, () -> c.drop(2, p));
-        }
-    }
-
-    private static void droppedAlready() {
-        CutDetectMember c = new CutDetectMember(5, 2, 2, 1);
-        Drive.must(c.observe(0, 4), "observe(0, 4)");
-        CHECKS.due("drop(0, 2)", c.drop(0, 2), true);
-        CHECKS.refused("drop(0, 2) again", c, () -> c.drop(0, 2));
-        CHECKS.refused("deliver(0, 2) after the drop", c, () -> c.deliver(0, 2));
-        CHECKS.due("deliver(0, 3)", c.deliver(0, 3), true);
-        CHECKS.refused("drop(0, 3) after it was delivered", c, () -> c.drop(0, 3));
-    }
-
-    /** "has the same refusals as deliver": a free slot has no dest */
-    private static void freeSlots() {
-        CutDetectMember c = new CutDetectMember(5, 2, 2, 1);
-        Drive.fillPool(c, 0);
-        Drive.dropAll(c);
-        for (int slot = 0; slot < CutDetectMember.SLOTS; slot++) {
-            for (int p = 0; p < 16; p++) {
-                int free = slot;
-                int receiver = p;
-                CHECKS.refused("drop(" + slot + ", " + p + ") of a free slot", c, () -> c.drop(free, receiver));
-            }
-        }
     }
 
     /** drop(slot, p) must take p off the slot and change nothing else. */

@@ -14,11 +14,7 @@ public final class MsgTest {
 
     /** In configuration 1 process 1 has accepted cut 8 in round 18, so every field of its promise differs from 0. */
     private static CutDetectMember promised() {
-        CutDetectMember c = new CutDetectMember(5, 2, 1, 1);
-        Drive.castVotes(c, 4, 0, 1, 2, 3);
-        for (int q = 0; q < 4; q++) {
-            Drive.give(c, CutDetectMember.VOTE, q, 0, 1, 2);
-        }
+        CutDetectMember c = Drive.ahead(5, 4, 0, 1, 2);
         Drive.castVotes(c, 3, 2);
         Drive.acceptSent(c, 2, 0, 1, 2);
         Drive.give(c, CutDetectMember.ACCEPT, 2, 1);

@@ -148,12 +148,7 @@ public final class ObserverTest {
 
     /** "there is no observer": M is empty. */
     private static void noMember() {
-        CutDetectMember c = new CutDetectMember(3, 6, 6, 1);
-        int[][] alerts = {{1, 0}, {2, 1}, {0, 2}, {2, 0}, {0, 1}, {1, 2}};
-        for (int[] alert : alerts) {
-            Drive.must(c.observe(alert[0], alert[1]), "observe");
-            Drive.give(c, CutDetectMember.ALERT, alert[0], 0, 1, 2);
-        }
+        CutDetectMember c = Drive.allToLeave();
         for (int q = 0; q < 3; q++) {
             Drive.give(c, CutDetectMember.VOTE, q, 1);
         }

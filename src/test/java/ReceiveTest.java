@@ -103,12 +103,7 @@ public final class ReceiveTest {
 
     /** 0 welcomes 3 to configuration 1 (slot 2) and to configuration 2 (slot 3). */
     private static CutDetectMember welcomedTwice() {
-        CutDetectMember c = new CutDetectMember(5, 2, 1, 1);
-        Drive.castVotes(c, 4, 0, 1, 2, 3);
-        for (int q = 0; q < 4; q++) {
-            Drive.give(c, CutDetectMember.VOTE, q, 0, 1, 2);
-        }
-        Drive.dropAll(c);
+        CutDetectMember c = Drive.ahead(5, 4, 0, 1, 2);
         Drive.must(c.fallback(3) && c.fallback(3) && c.deliver(0, 0), "the prepares of 3");
         CHECKS.message("welcome to 1", c, 2, CutDetectMember.WELCOME, 0, 1, 15, 16, 0, 8);
         Drive.castVotes(c, 5, 0, 1, 2);
@@ -170,12 +165,7 @@ public final class ReceiveTest {
     /** "If status(p) == OUT: nothing.": a joiner that has not had its welcome. */
     private static void outsiderAndNewerMessages() {
         for (int kind : new int[] {1, 2, 3, 5, 6}) {
-            CutDetectMember c = new CutDetectMember(4, 2, 1, 1);
-            Drive.castVotes(c, 7, 0, 1, 2);
-            for (int q = 0; q < 3; q++) {
-                Drive.give(c, CutDetectMember.VOTE, q, 0, 1, 2);
-            }
-            Drive.dropAll(c);
+            CutDetectMember c = Drive.ahead(4, 7, 0, 1, 2);
             Drive.castVotes(c, 9, 0, 1, 2);
             int slot = Drive.pending(c, kind, 1, 7, 0, 1, 2);
             CHECKS.due("sent in configuration 1", c.msg(slot, CutDetectMember.F_CFG), 1);
@@ -217,12 +207,7 @@ public final class ReceiveTest {
     /** "If the message's cfg > cfg(p): nothing." A promise goes to one that is not behind its sender. */
     private static void newerMessage() {
         for (int kind : new int[] {1, 2, 3, 5, 6}) {
-            CutDetectMember c = new CutDetectMember(5, 2, 1, 1);
-            Drive.castVotes(c, 4, FIVE);
-            for (int q = 0; q < 4; q++) {
-                Drive.give(c, CutDetectMember.VOTE, q, 0, 1, 2);
-            }
-            Drive.dropAll(c);
+            CutDetectMember c = Drive.ahead(5, 4, 0, 1, 2);
             Drive.castVotes(c, 9, 0, 1, 2);
             int slot = Drive.pending(c, kind, 1, 3, 0, 1, 2);
             CHECKS.due("sent in configuration 1", c.msg(slot, CutDetectMember.F_CFG), 1);

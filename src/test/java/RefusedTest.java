@@ -21,11 +21,7 @@ public final class RefusedTest {
      * accepted, and 2 learns of it and collects promises itself. 5 is out, 6 is crashed.
      */
     private static CutDetectMember busy() {
-        CutDetectMember c = new CutDetectMember(5, 2, 1, 1);
-        Drive.castVotes(c, 4, 0, 1, 2, 3, 4);
-        for (int q = 0; q < 4; q++) {
-            Drive.give(c, CutDetectMember.VOTE, q, 0, 1, 2);
-        }
+        CutDetectMember c = Drive.ahead(5, 4, 0, 1, 2);
         Drive.must(c.crash(6), "crash(6)");
         Drive.castVotes(c, 3, 0, 1, 2);
         Drive.acceptSent(c, 0, 0, 1, 2);

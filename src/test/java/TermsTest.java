@@ -273,12 +273,7 @@ public final class TermsTest {
 
     /** "Installing cut C turns M into M ^ C.": the empty set too. */
     private static void nobodyIsLeft() {
-        CutDetectMember c = new CutDetectMember(3, 6, 6, 1);
-        int[][] alerts = {{1, 0}, {2, 1}, {0, 2}, {2, 0}, {0, 1}, {1, 2}};
-        for (int[] alert : alerts) {
-            Drive.must(c.observe(alert[0], alert[1]), "observe");
-            Drive.give(c, CutDetectMember.ALERT, alert[0], 0, 1, 2);
-        }
+        CutDetectMember c = Drive.allToLeave();
         Drive.give(c, CutDetectMember.VOTE, 0, 1);
         Drive.give(c, CutDetectMember.VOTE, 1, 1);
         int vote = Drive.find(c, CutDetectMember.VOTE, 2);
